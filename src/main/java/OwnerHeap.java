@@ -31,17 +31,17 @@ public final class OwnerHeap {
 
     public OwnerHeap() {
         tape = new byte[TAPE_LENGTH];
-        tokens = new Tokens();
-        reader = new Reader(tokens);
-        judge = new Judge(tokens, reader);
-        coder = new Coder(tokens, reader, judge);
         program = new Program();
         spare = new Program();
+        tokens = new Tokens();
+        reader = new Reader(tokens, spare);
+        judge = new Judge(tokens, reader, spare);
+        coder = new Coder(tokens, reader, judge, spare);
         faultNumber = NONE;
         faultPlace = NONE;
         heap = new Heap();
-        machine = new Machine(heap);
-        walker = new Walker(heap);
+        machine = new Machine(heap, program);
+        walker = new Walker(heap, program);
     }
 
     public int feed(int a, int b, int c, int d, int e) {
@@ -529,9 +529,9 @@ public final class OwnerHeap {
 
     /** Reads a TEXT by its rules: FAULTS 1 to 3, and where its CLASSES and MEMBERS stand. */
     private static final class Reader {
+        static final int VARIABLES = 16;
         private static final int OPEN = 12;
         private static final int ARGUMENTS = 6;
-        private static final int VARIABLES = 16;
         /** What an E is, as far as it matters to the ; or = behind it. */
         private static final int ANY = 0;
         private static final int NAME_ALONE = 1;
@@ -552,8 +552,10 @@ public final class OwnerHeap {
         private int opened;
         private int variables;
 
-        Reader(Tokens tokens) {
+        Reader(Tokens tokens, Program into) {
             this.tokens = tokens;
+            program = into;
+            members = into.members;
             classTokens = new int[Program.CLASSES];
             isTokens = new int[Program.CLASSES];
             inTokens = new int[Program.CLASSES];
@@ -566,8 +568,12 @@ public final class OwnerHeap {
             program = into;
             members = into.members;
             opened = 0;
-            for (int k = 0; k <= Program.CLASSES && tokens.is(Tokens.CLASS); k++) {
-                readClass();
+            for (int c = 0; c <= Program.CLASSES && tokens.is(Tokens.CLASS); c++) {
+                readHead(c);
+                for (int k = 0; k <= Program.MEMBERS && startsType(); k++) {
+                    readMember(c, k);
+                }
+                close('}');
             }
             tokens.need(Tokens.MAIN);
             variables = 0;
@@ -595,38 +601,35 @@ public final class OwnerHeap {
             opened--;
         }
 
-        private void readClass() {
-            int c = program.classes;
+        /** From class to behind the { of the CLASS. */
+        private void readHead(int c) {
             if (c == Program.CLASSES) {
                 tokens.refuse(3);
                 return;
             }
-            tokens.skip();
             program.classes++;
+            program.firstMember[c] = members.count;
+            tokens.skip();
             classTokens[c] = tokens.now();
             program.places[c] = tokens.placeAt(tokens.now());
             tokens.need(Tokens.CLASSNAME);
             readNames(c);
-            isTokens[c] = tokens.is(Tokens.IS) ? tokens.now() : NONE;
+            isTokens[c] = NONE;
             if (tokens.is(Tokens.IS)) {
+                isTokens[c] = tokens.now();
                 tokens.skip();
                 readType(false);
             }
             if (tokens.is(Tokens.WHERE)) {
                 readIns(c);
             }
-            program.firstMember[c] = members.count;
             open('{');
-            for (int k = 0; k <= Program.MEMBERS && startsType(); k++) {
-                readMember(c);
-            }
-            close('}');
         }
 
         private void readNames(int c) {
             tokens.need('[');
             readName(c);
-            for (int k = 0; k <= Program.NAMES && tokens.is(','); k++) {
+            for (int k = 0; k < Program.NAMES && tokens.is(','); k++) {
                 tokens.skip();
                 readName(c);
             }
@@ -648,7 +651,7 @@ public final class OwnerHeap {
             tokens.skip();
             inTokens[c] = tokens.now();
             readIn(c);
-            for (int k = 0; k <= Program.INS && tokens.is(','); k++) {
+            for (int k = 0; k < Program.INS && tokens.is(','); k++) {
                 tokens.skip();
                 readIn(c);
             }
@@ -667,9 +670,9 @@ public final class OwnerHeap {
             }
         }
 
-        private void readMember(int c) {
+        private void readMember(int c, int ahead) {
             int m = members.count;
-            if (program.memberCount[c] == Program.MEMBERS || m >= Members.MOST) {
+            if (ahead == Program.MEMBERS || m >= Members.MOST) {
                 tokens.refuse(3);
                 return;
             }
@@ -758,19 +761,21 @@ public final class OwnerHeap {
                 case '{':
                     readBlock();
                     break;
-                case Tokens.INT:
-                case Tokens.CLASSNAME:
-                    readVariable();
-                    break;
                 case Tokens.IF:
-                    readCondition();
+                    readGuarded();
                     if (tokens.is(Tokens.ELSE)) {
                         tokens.skip();
                         readBlock();
                     }
                     break;
                 case Tokens.WHILE:
-                    readCondition();
+                    readGuarded();
+                    break;
+                case Tokens.INT:
+                case Tokens.CLASSNAME:
+                    readVariable();
+                    readValue();
+                    tokens.need(';');
                     break;
                 case Tokens.RETURN:
                 case Tokens.SAY:
@@ -779,24 +784,16 @@ public final class OwnerHeap {
                     tokens.need(';');
                     break;
                 default:
-                    readValueStatement();
+                    if (readSetSign(readValue())) {
+                        readValue();
+                    }
+                    tokens.need(';');
                     break;
             }
         }
 
-        private void readVariable() {
-            readType(true);
-            if (tokens.is(Tokens.NAME) && variables == VARIABLES) {
-                tokens.refuse(3);
-            }
-            variables++;
-            tokens.need(Tokens.NAME);
-            tokens.need('=');
-            readValue();
-            tokens.need(';');
-        }
-
-        private void readCondition() {
+        /** From if or while to behind its BLOCK. */
+        private void readGuarded() {
             tokens.skip();
             open('(');
             readValue();
@@ -804,17 +801,27 @@ public final class OwnerHeap {
             readBlock();
         }
 
-        private void readValueStatement() {
-            int shape = readValue();
-            if (tokens.is(';') && shape == CALL_LAST) {
+        /** A VARIABLE to behind its = . */
+        private void readVariable() {
+            readType(true);
+            if (variables == VARIABLES && tokens.is(Tokens.NAME)) {
+                tokens.refuse(3);
+            }
+            variables++;
+            tokens.need(Tokens.NAME);
+            tokens.need('=');
+        }
+
+        /** Takes the = behind the first E of a STATEMENT; false if there is its ; instead. */
+        private boolean readSetSign(int shape) {
+            boolean isSet = tokens.is('=') && (shape == NAME_ALONE || shape == FIELD_LAST);
+            boolean isCall = tokens.is(';') && shape == CALL_LAST;
+            if (isSet) {
                 tokens.skip();
-            } else if (tokens.is('=') && (shape == NAME_ALONE || shape == FIELD_LAST)) {
-                tokens.skip();
-                readValue();
-                tokens.need(';');
-            } else {
+            } else if (!isCall) {
                 tokens.refuse(2);
             }
+            return isSet;
         }
 
         private int readValue() {
@@ -860,49 +867,38 @@ public final class OwnerHeap {
         private int readPost() {
             int shape = readAtom();
             for (int k = 0; k < tokens.size() && (tokens.is('.') || tokens.is(Tokens.AS)); k++) {
-                shape = readPart();
+                if (tokens.is(Tokens.AS)) {
+                    tokens.skip();
+                    readType(false);
+                    shape = ANY;
+                } else {
+                    tokens.skip();
+                    tokens.need(Tokens.NAME);
+                    shape = tokens.is('(') ? readArguments() : FIELD_LAST;
+                }
             }
             return shape;
         }
 
-        private int readPart() {
-            if (tokens.is(Tokens.AS)) {
-                tokens.skip();
-                readType(false);
-                return ANY;
-            }
-            tokens.skip();
-            tokens.need(Tokens.NAME);
-            if (!tokens.is('(')) {
-                return FIELD_LAST;
-            }
-            readArguments();
-            return CALL_LAST;
-        }
-
-        private void readArguments() {
+        private int readArguments() {
             int first = tokens.now();
             int many = 0;
             open('(');
-            if (!tokens.is(')')) {
-                readArgument(0);
-                many = 1;
-                for (int k = 0; k <= ARGUMENTS && tokens.is(','); k++) {
+            boolean more = !tokens.is(')');
+            for (int k = 0; k <= ARGUMENTS && more; k++) {
+                if (k == ARGUMENTS && startsValue()) {
+                    tokens.refuse(3);
+                }
+                readValue();
+                many++;
+                more = tokens.is(',');
+                if (more) {
                     tokens.skip();
-                    readArgument(many);
-                    many++;
                 }
             }
             close(')');
             tokens.setArguments(first, many);
-        }
-
-        private void readArgument(int ahead) {
-            if (ahead == ARGUMENTS && startsValue()) {
-                tokens.refuse(3);
-            } else {
-                readValue();
-            }
+            return CALL_LAST;
         }
 
         private boolean startsValue() {
@@ -1346,9 +1342,11 @@ public final class OwnerHeap {
         private final long[] nameKeys;
         private final long[] paramKeys;
 
-        Judge(Tokens tokens, Reader reader) {
+        Judge(Tokens tokens, Reader reader, Program judged) {
             this.tokens = tokens;
             this.reader = reader;
+            program = judged;
+            members = judged.members;
             classKeys = new long[Program.CLASSES];
             nameKeys = new long[Program.CLASSES * Program.NAMES];
             paramKeys = new long[Members.PARAMS];
@@ -1464,8 +1462,8 @@ public final class OwnerHeap {
         private void judgeMembers() {
             for (int c = 0; c < program.classes && tokens.isFine(); c++) {
                 int kind = program.aboveKinds[c];
-                if (kind >= 0) {
-                    askNested(c, kind, reader.isTokens[c] + 1);
+                if (kind >= 0 && !trust && !program.isNested(c, kind)) {
+                    tokens.refuseAt(8, reader.isTokens[c] + 1);
                 }
                 int first = program.firstMember[c];
                 for (int m = first; m < first + program.memberCount[c] && tokens.isFine(); m++) {
@@ -1560,16 +1558,10 @@ public final class OwnerHeap {
                 kind = Program.withOwner(kind, i, owner);
             }
             tokens.goTo(t + 2 + 2 * many);
-            if (!behindIs) {
-                askNested(c, kind, t);
-            }
-            return kind;
-        }
-
-        private void askNested(int c, int kind, int t) {
-            if (!trust && !program.isNested(c, kind)) {
+            if (!behindIs && !trust && !program.isNested(c, kind)) {
                 tokens.refuseAt(8, t);
             }
+            return kind;
         }
 
         /** How many OWNERS the KIND at TOKEN t has. */
@@ -1607,47 +1599,46 @@ public final class OwnerHeap {
         private final int[] numbers;
         private int known;
         private int told;
-        /** The FIELD left of an = . */
+        /** What is left of an = : how it is set, which it is, its NAME's place, its TYPE. */
+        private int targetOp;
         private int target;
         private int targetPlace;
+        private int targetType;
 
-        Coder(Tokens tokens, Reader reader, Judge judge) {
+        Coder(Tokens tokens, Reader reader, Judge judge, Program judged) {
             this.tokens = tokens;
             this.reader = reader;
             this.judge = judge;
+            program = judged;
+            members = judged.members;
+            code = judged.code;
             keys = new long[Reader.VARIABLES];
             types = new int[Reader.VARIABLES];
             numbers = new int[Reader.VARIABLES];
         }
 
+        /** The METHODS in order, then main, which is the last of the rows. */
         void codeAll(Program judged) {
             program = judged;
             members = judged.members;
             code = judged.code;
-            for (int m = 0; m < members.count && tokens.isFine(); m++) {
+            for (int m = 0; m <= Members.MAIN && tokens.isFine(); m++) {
                 if (members.isMethod[m]) {
-                    codeBody(m);
+                    knowParams(m);
+                    home = members.home[m];
+                    returned = members.types[m];
+                    members.start[m] = code.size;
+                    tokens.goTo(reader.blockTokens[m]);
+                    codeBlock();
+                    code.emit(Code.PUSH, 0, NONE);
+                    code.emit(Code.RETURN, 0, NONE);
                 }
             }
-            if (tokens.isFine()) {
-                codeBody(Members.MAIN);
-            }
-        }
-
-        private void codeBody(int m) {
-            home = members.home[m];
-            returned = members.types[m];
-            known = 0;
-            told = 0;
-            knowParams(m);
-            members.start[m] = code.size;
-            tokens.goTo(reader.blockTokens[m]);
-            codeBlock();
-            code.emit(Code.PUSH, 0, NONE);
-            code.emit(Code.RETURN, 0, NONE);
         }
 
         private void knowParams(int m) {
+            known = 0;
+            told = 0;
             tokens.goTo(reader.nameTokens[m] + 2);
             for (int i = 0; i < members.params[m]; i++) {
                 int t = tokens.now();
@@ -1688,15 +1679,13 @@ public final class OwnerHeap {
         }
 
         private void codeStatement() {
-            if (tokens.is('{')) {
-                codeBlock();
-                return;
+            int first = tokens.kindNow();
+            if (first != '{') {
+                code.emit(Code.STATEMENT, 0, tokens.placeAt(tokens.now()));
             }
-            code.emit(Code.STATEMENT, 0, tokens.placeAt(tokens.now()));
-            switch (tokens.kindNow()) {
-                case Tokens.INT:
-                case Tokens.CLASSNAME:
-                    codeVariable();
+            switch (first) {
+                case '{':
+                    codeBlock();
                     break;
                 case Tokens.IF:
                     codeIf();
@@ -1705,39 +1694,74 @@ public final class OwnerHeap {
                     codeWhile();
                     break;
                 case Tokens.RETURN:
-                    codeReturn();
+                    codeFitting(returned);
+                    code.emit(Code.RETURN, 0, NONE);
                     break;
                 case Tokens.SAY:
-                    codeSay();
+                    codeFitting(Program.INT);
+                    code.emit(Code.SAY, 0, NONE);
+                    break;
+                case Tokens.INT:
+                case Tokens.CLASSNAME:
+                    int type = judge.typeHere(home);
+                    long key = newNameHere();
+                    codeFitting(type);
+                    code.emit(Code.STORE, told, NONE);
+                    know(key, type);
                     break;
                 default:
-                    codeCallOrSet();
+                    if (codeLeft() != Code.POP) {
+                        codeFitting(targetType);
+                    }
+                    code.emit(targetOp, target, targetPlace);
                     break;
             }
         }
 
-        private void codeVariable() {
-            int type = judge.typeHere(home);
+        /** The NAME of a VARIABLE that is told. */
+        private long newNameHere() {
             long key = tokens.keyAt(tokens.now());
             if (knownNamed(key) != NONE) {
                 tokens.refuse(4);
             }
             tokens.skip();
-            codeSet(type);
-            code.emit(Code.STORE, told, NONE);
-            know(key, type);
+            return key;
         }
 
-        /** From the = to behind the ; that ends the STATEMENT. */
-        private void codeSet(int wanted) {
+        /** The last E of a STATEMENT, from the sign or word ahead of it to behind the ; . */
+        private void codeFitting(int wanted) {
             int sign = tokens.now();
             tokens.skip();
-            askFits(codeValue(), wanted, sign);
+            if (!program.fits(codeValue(), wanted)) {
+                tokens.refuseAt(7, sign);
+            }
             tokens.skip();
         }
 
-        private void askFits(int type, int wanted, int t) {
-            if (!program.fits(type, wanted)) {
+        /** The first E of a STATEMENT: a call with its ; or what is left of = , the target. */
+        private int codeLeft() {
+            if (tokens.is(Tokens.NAME) && tokens.kindAt(tokens.now() + 1) == '=') {
+                int i = knownHere();
+                aimAt(Code.STORE, numberOfKnown(i), NONE);
+                targetType = typeOfKnown(i);
+                return targetOp;
+            }
+            targetType = codeValue();
+            if (!tokens.is('=')) {
+                tokens.skip();
+                aimAt(Code.POP, 0, NONE);
+            }
+            return targetOp;
+        }
+
+        private void aimAt(int op, int number, int place) {
+            targetOp = op;
+            target = number;
+            targetPlace = place;
+        }
+
+        private void refuseIfInt(int type, int t) {
+            if (type == Program.INT) {
                 tokens.refuseAt(7, t);
             }
         }
@@ -1778,35 +1802,6 @@ public final class OwnerHeap {
             askNumber(codeValue(), word);
             tokens.skip();
             return code.emit(Code.JUMP_ZERO, 0, NONE);
-        }
-
-        private void codeReturn() {
-            codeSet(returned);
-            code.emit(Code.RETURN, 0, NONE);
-        }
-
-        private void codeSay() {
-            codeSet(Program.INT);
-            code.emit(Code.SAY, 0, NONE);
-        }
-
-        private void codeCallOrSet() {
-            if (tokens.is(Tokens.NAME) && tokens.kindAt(tokens.now() + 1) == '=') {
-                int i = knownHere();
-                codeSet(typeOfKnown(i));
-                code.emit(Code.STORE, numberOfKnown(i), NONE);
-                return;
-            }
-            int type = codeValue();
-            if (tokens.is('=')) {
-                int slot = target;
-                int place = targetPlace;
-                codeSet(type);
-                code.emit(Code.PUT, slot, place);
-            } else {
-                tokens.skip();
-                code.emit(Code.POP, 0, NONE);
-            }
         }
 
         /** The VARIABLE at the cursor, which goes behind it. */
@@ -1903,19 +1898,19 @@ public final class OwnerHeap {
             boolean thisAlone = tokens.is(Tokens.THIS);
             int type = codeAtom();
             for (int k = 0; k < tokens.size() && (tokens.is('.') || tokens.is(Tokens.AS)); k++) {
-                type = tokens.is('.') ? codeMember(type, thisAlone) : codeAs(type);
+                int sign = tokens.now();
+                tokens.skip();
+                if (tokens.kindAt(sign) == '.') {
+                    type = codeMember(type, thisAlone);
+                } else {
+                    int kind = judge.kindHere(home, false);
+                    refuseIfInt(type, sign);
+                    code.emit(Code.AS, kind, tokens.placeAt(sign));
+                    type = kind;
+                }
                 thisAlone = false;
             }
             return type;
-        }
-
-        private int codeAs(int type) {
-            int word = tokens.now();
-            int kind = codeKind(Code.AS);
-            if (type == Program.INT) {
-                tokens.refuseAt(7, word);
-            }
-            return kind;
         }
 
         private int codeAtom() {
@@ -1927,7 +1922,11 @@ public final class OwnerHeap {
                 case Tokens.THIS:
                     return codeThis();
                 case Tokens.NEW:
-                    return codeKind(Code.NEW);
+                    int word = tokens.now();
+                    tokens.skip();
+                    int kind = judge.kindHere(home, false);
+                    code.emit(Code.NEW, kind, tokens.placeAt(word));
+                    return kind;
                 case Tokens.NULL:
                     tokens.skip();
                     code.emit(Code.PUSH, 0, NONE);
@@ -1944,15 +1943,6 @@ public final class OwnerHeap {
             }
         }
 
-        /** From new or as to behind its KIND. */
-        private int codeKind(int op) {
-            int word = tokens.now();
-            tokens.skip();
-            int kind = judge.kindHere(home, false);
-            code.emit(op, kind, tokens.placeAt(word));
-            return kind;
-        }
-
         private int codeThis() {
             if (home == NONE) {
                 tokens.refuse(5);
@@ -1963,9 +1953,8 @@ public final class OwnerHeap {
             return program.ownKind(home);
         }
 
-        /** The cursor is at the '.' behind an E of that TYPE. */
+        /** The cursor is at the NAME behind an E of that TYPE. */
         private int codeMember(int type, boolean thisAlone) {
-            tokens.skip();
             int name = tokens.now();
             if (type < 0) {
                 tokens.refuseAt(7, name);
@@ -1995,8 +1984,7 @@ public final class OwnerHeap {
         private void codeField(int m, int name) {
             int place = tokens.placeAt(name);
             if (tokens.is('=')) {
-                target = members.number[m];
-                targetPlace = place;
+                aimAt(Code.PUT, members.number[m], place);
             } else {
                 code.emit(Code.GET, members.number[m], place);
             }
@@ -2013,7 +2001,10 @@ public final class OwnerHeap {
                     tokens.skip();
                 }
                 int first = tokens.now();
-                askFits(codeValue(), program.standing(members.paramType(m, i), seen), first);
+                int wanted = program.standing(members.paramType(m, i), seen);
+                if (!program.fits(codeValue(), wanted)) {
+                    tokens.refuseAt(7, first);
+                }
             }
             tokens.skip();
             code.emit(Code.CALL, m, tokens.placeAt(name));
@@ -2191,8 +2182,10 @@ public final class OwnerHeap {
         int saidCount;
         final int[] saidRow;
 
-        Machine(Heap heap) {
+        Machine(Heap heap, Program of) {
             this.heap = heap;
+            program = of;
+            code = of.code;
             frames = new Frames();
             stack = new int[Frames.MOST * VALUES];
             saidRow = new int[KEPT];
@@ -2226,31 +2219,30 @@ public final class OwnerHeap {
         }
 
         void goOn(int n) {
-            for (int k = 0; k < n && phase == GOING; k++) {
+            for (int k = 0; k < n && phase == GOING && pc < code.size; k++) {
+                int at = pc;
+                pc++;
                 steps++;
-                workOne();
+                if (code.ops[at] >= Code.ADD) {
+                    workOperator(code.ops[at], code.places[at]);
+                } else {
+                    workStep(code.ops[at], code.args[at], code.places[at]);
+                }
                 coast();
             }
         }
 
         /** What has no STEP is done at once. */
         private void coast() {
-            for (int k = 0; k < LONGEST && phase == GOING && code.ops[pc] < Code.STATEMENT; k++) {
+            for (int k = 0; k < LONGEST && phase == GOING && isAtOnce(); k++) {
+                int at = pc;
                 pc++;
-                workAtOnce(code.ops[pc - 1], code.args[pc - 1], code.places[pc - 1]);
+                workAtOnce(code.ops[at], code.args[at], code.places[at]);
             }
         }
 
-        private void workOne() {
-            int op = code.ops[pc];
-            int arg = code.args[pc];
-            int place = code.places[pc];
-            pc++;
-            if (op >= Code.ADD) {
-                workOperator(op, place);
-            } else {
-                workStep(op, arg, place);
-            }
+        private boolean isAtOnce() {
+            return pc < code.size && code.ops[pc] < Code.STATEMENT;
         }
 
         private void workAtOnce(int op, int arg, int place) {
@@ -2505,8 +2497,9 @@ public final class OwnerHeap {
         private final int[] leakRow;
         private int leakTotal;
 
-        Walker(Heap heap) {
+        Walker(Heap heap, Program at) {
             this.heap = heap;
+            program = at;
             int length = Heap.OBJECTS + 1;
             queue = new int[length];
             from = new int[length];
@@ -2602,6 +2595,7 @@ public final class OwnerHeap {
                 return;
             }
             known = true;
+            spread(0, 0);
             findNearest();
             leakTotal = 0;
             for (int o = 1; o <= heap.count; o++) {
@@ -2617,7 +2611,6 @@ public final class OwnerHeap {
          * takes away from its end what is not above its beginning, till none takes anything.
          */
         private void findNearest() {
-            spread(0, 0);
             System.arraycopy(from, 0, nearest, 0, heap.count + 1);
             nearest[0] = 0;
             ranks[0] = 0;
