@@ -1,0 +1,135 @@
+/** Promises 2 to 4: the tape, what load() refuses, and what stays when a TEXT has a FAULT. */
+public final class TapeTest {
+    private static final Check CHECK = new Check();
+
+    private static void fillsUp() {
+        OwnerHeap x = new OwnerHeap();
+        for (int i = 1; i <= 150; i++) {
+            CHECK.due("feed " + i, x.feed(0, 0, 0, 0, 0), 20 * i);
+        }
+        CHECK.due("feed over the end", x.feed(0, 0, 0, 0, 0), -1);
+        CHECK.due("feed over the end again", x.feed(1, 2, 3, 4, 5), -1);
+        CHECK.due("load of more than there is", x.load(3001, false), -1);
+        CHECK.due("fault ahead of any", x.fault(0), -1);
+        CHECK.due("load of all", x.load(3000, false), 1);
+        CHECK.due("its place", x.fault(1), 0);
+        CHECK.due("feed on the empty tape", x.feed(0, 0, 0, 0, 0), 20);
+    }
+
+    private static void highestByteFirst() {
+        OwnerHeap x = new OwnerHeap();
+        x.feed(0x6d61696e, 0x207b2073, 0x61792031, 0x3b207d20, 0x20202024);
+        CHECK.due("without the last byte", x.load(19, false), 0);
+        x.feed(0x6d61696e, 0x207b2073, 0x61792031, 0x3b207d20, 0x20202024);
+        CHECK.due("with it", x.load(20, false), 1);
+        CHECK.due("where it is", x.fault(1), 19);
+        x.feed(0x6d61696e, 0x207b207d, 0x23ffffff, 0x80818283, -1);
+        CHECK.due("bytes over 127 in a note", x.load(20, false), 0);
+    }
+
+    private static void loadsPart() {
+        OwnerHeap x = new OwnerHeap();
+        Check.feed(x, "main { say 12345; }");
+        CHECK.due("below 0", x.load(-1, false), -1);
+        CHECK.due("too many", x.load(21, false), -1);
+        CHECK.due("the least int", x.load(Integer.MIN_VALUE, false), -1);
+        CHECK.due("nothing happened", x.fault(0), -1);
+        CHECK.due("the tape is as it was", x.feed(0, 0, 0, 0, 0), 40);
+        CHECK.due("cut in a TOKEN", x.load(14, false), 2);
+        CHECK.due("at the length", x.fault(1), 14);
+        CHECK.due("the tape is empty", x.load(1, false), -1);
+        CHECK.due("the FAULT stays", x.fault(0), 2);
+        CHECK.due("its place stays", x.fault(1), 14);
+        CHECK.due("an empty TEXT", x.load(0, false), 2);
+        CHECK.due("its place", x.fault(1), 0);
+        CHECK.due("fault(-1)", x.fault(-1), -1);
+        CHECK.due("fault(2)", x.fault(2), -1);
+    }
+
+    private static void longTexts() {
+        String text = "main { say 7; }";
+        text = text + " ".repeat(3000 - text.length());
+        OwnerHeap x = new OwnerHeap();
+        CHECK.due("3,000 bytes", Check.load(x, text, false), 0);
+        String sum = "main{say 1" + "+1".repeat(1490) + ";}      ";
+        CHECK.due("many operators", Check.load(x, sum.substring(0, 2994), false), 0);
+        x.start(8, 1);
+        CHECK.due("a long sum", x.run(2000), 2);
+        CHECK.due("is worked", x.said(0), 1491);
+        String calls = "class A[o]{int m(){}}main{A[world]a=new A[world];" + "a.m();".repeat(490) + "}";
+        CHECK.due("many calls", Check.load(x, calls, false), 0);
+        x.start(8, 2);
+        CHECK.due("all done", x.run(2000), 2);
+        CHECK.due("in STEPS", x.state(4), 2 + 2 * 490);
+        String sets = "main{int a=1;" + "a=1;".repeat(740) + "}";
+        CHECK.due("many that set", Check.load(x, sets, false), 0);
+        x.start(8, 1);
+        CHECK.due("all set", x.run(741), 2);
+        String minus = "main{int a=1" + "- - - - - - - - - - - -1".repeat(122) + ";return a;}";
+        CHECK.due("many -", Check.load(x, minus, false), 0);
+        x.start(8, 1);
+        CHECK.due("all taken", x.run(2000), 2);
+        CHECK.due("what is left", x.state(1), 1 + 122);
+    }
+
+    /** 16 CLASSES of 24 MEMBERS each, one above the other, fit one TEXT: 368 FIELDS in the last. */
+    private static void manyMembers() {
+        StringBuilder text = new StringBuilder();
+        for (int c = 0; c < 16; c++) {
+            text.append("class C").append(c).append("[o]").append(c == 0 ? "" : " is C" + (c - 1) + "[o]").append("{");
+            for (int m = 0; m < 23; m++) {
+                text.append("int ").append((char) ('a' + m)).append(c == 0 ? "" : "" + (char) ('A' + c)).append(";");
+            }
+            text.append("}");
+        }
+        text.append("main{C15[world]a=new C15[world];a.wP=5;a.a=6;}");
+        OwnerHeap x = new OwnerHeap();
+        CHECK.due("length", text.length() <= 3000, true);
+        CHECK.due("many MEMBERS", Check.load(x, text.toString(), false), 0);
+        CHECK.due("FIELDS", x.type(15, 2), 368);
+        CHECK.due("start", x.start(371, 1), true);
+        CHECK.due("run", x.run(10), 2);
+        CHECK.due("the last FIELD", x.field(1, 367), 5);
+        CHECK.due("the first FIELD", x.field(1, 0), 6);
+        CHECK.due("none behind", x.field(1, 368), 0);
+        CHECK.due("object(1, 3)", x.object(1, 3), 368);
+        CHECK.due("start with less", x.start(370, 1), true);
+        CHECK.due("run", x.run(10), 3);
+        CHECK.due("FULL", x.state(2), 4);
+    }
+
+    private static void faultLeavesAll() {
+        OwnerHeap x = new OwnerHeap();
+        Check.load(x, "class A[o] { int v; } main { A[world] a = new A[world]; a.v = 3; say a.v; }", false);
+        x.start(100, 4);
+        x.run(3);
+        CHECK.due("one with a FAULT", Check.load(x, "class B[o,p] { B[o] v; } main { }", false), 6);
+        CHECK.due("PROGRAM stays", x.type(0, 0), 1);
+        CHECK.due("its FIELDS", x.type(0, 2), 1);
+        CHECK.due("RUN stays", x.state(4), 3);
+        CHECK.due("OBJECTS stay", x.object(1, 0), 0);
+        CHECK.due("RUN goes on", x.run(100), 2);
+        CHECK.due("said", x.said(0), 3);
+        CHECK.due("a new PROGRAM", Check.load(x, "class B[o,p] { } main { }", false), 0);
+        CHECK.due("is there", x.type(0, 0), 2);
+        for (int what = 0; what < 10; what++) {
+            CHECK.due("no RUN, state(" + what + ")", x.state(what), what == 3 ? -1 : 0);
+        }
+        CHECK.due("no number", x.said(0), 0);
+        CHECK.due("no OBJECT", x.object(1, 0), -1);
+        CHECK.due("no call", x.call(0, 2), -1);
+        CHECK.due("no run", x.run(1), -1);
+        CHECK.due("no FAULT", x.fault(0), 0);
+        CHECK.due("no place", x.fault(1), -1);
+    }
+
+    public static void main(String[] args) {
+        fillsUp();
+        highestByteFirst();
+        loadsPart();
+        longTexts();
+        manyMembers();
+        faultLeavesAll();
+        CHECK.end();
+    }
+}
