@@ -1299,7 +1299,7 @@ public final class OwnerHeap {
         static final int LESS = 22;
         static final int SAME = 23;
         static final int DIFFERENT = 24;
-        /** No byte of a TEXT asks for more than one instruction; each BLOCK of a METHOD has two more. */
+        /** No TEXT asks for more instructions than it has bytes. */
         private static final int LENGTH = TAPE_LENGTH + 100;
 
         final int[] ops;
