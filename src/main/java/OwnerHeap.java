@@ -959,6 +959,7 @@ public final class OwnerHeap {
         static final int THIS = 6;
         private static final int OWNERS = 7;
         private static final int OWNER_BITS = 3;
+        private static final int OWNER_MASK = 7;
         private static final int CLASS_SHIFT = 15;
         private static final int LONG_BITS = 64;
         private static final int FIELD_LONGS = CLASSES * MEMBERS / LONG_BITS;
@@ -1024,7 +1025,7 @@ public final class OwnerHeap {
         }
 
         static int ownerIn(int kind, int i) {
-            return (kind >> (OWNER_BITS * i)) & OWNERS;
+            return (kind >> (OWNER_BITS * i)) & OWNER_MASK;
         }
 
         static int bareKind(int c) {
