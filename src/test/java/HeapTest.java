@@ -51,7 +51,22 @@ public final class HeapTest {
         CHECK.due("isInside(1, " + o + ")", x.isInside(1, o), o == 0 && x.state(6) > 0);
     }
 
+    /** world stays world in the METHODS of one that is owned. */
+    private static void worldInside() {
+        OwnerHeap x = new OwnerHeap();
+        Check.load(x, "class A[o] { A[this] h; A[world] w; A[o] s; int f(int i) { this.w = new A[world]; this.s = new A[o]; "
+            + "if (i) { this.h = new A[this]; this.h.f(i - 1); } } } main { A[world] a = new A[world]; a.f(2); }", false);
+        x.start(200, 9);
+        CHECK.due("run", x.run(2000), 2);
+        int[] owners = {0, 0, 0, 0, 1, 0, 1, 4, 0, 4};
+        CHECK.due("OBJECTS", x.state(6), 9);
+        for (int o = 1; o <= 9; o++) {
+            CHECK.due("owner(" + o + ", 0)", x.owner(o, 0), owners[o]);
+        }
+    }
+
     public static void main(String[] args) {
+        worldInside();
         OwnerHeap x = new OwnerHeap();
         none(x, 0);
         none(x, 1);

@@ -307,6 +307,20 @@ public final class RunTest {
         CHECK.due("variable(" + i + ", 16)", x.variable(i, 16), 0);
     }
 
+    /** Behind the last VARIABLE of a CALL there is none, though another CALL has some. */
+    private static void sixteenVariables() {
+        StringBuilder text = new StringBuilder("class A[o] { int f(int i) { say i; } } main { A[world] a = new A[world]; ");
+        for (int i = 1; i < 16; i++) {
+            text.append("int v").append(i).append(" = ").append(i).append("; ");
+        }
+        OwnerHeap x = started(text + "a.f(77); }", 20, 2);
+        x.run(2 + 15 + 2);
+        CHECK.due("of f", x.variable(1, 0), 77);
+        CHECK.due("the last of main", x.variable(0, 15), 15);
+        CHECK.due("behind it", x.variable(0, 16), 0);
+        CHECK.due("far behind it", x.variable(0, Integer.MAX_VALUE), 0);
+    }
+
     /** What a loop left in a VARIABLE stays till it is told again; a new call begins with 0. */
     private static void variablesStay() {
         OwnerHeap x = started("class A[o] { int f(int i) { if (i) { int k = 7; } return i; } } main { A[world] a = new A[world]; "
@@ -336,6 +350,7 @@ public final class RunTest {
         over();
         numbersSaid();
         callsAndVariables();
+        sixteenVariables();
         variablesStay();
         CHECK.end();
     }

@@ -46,6 +46,25 @@ public final class TapeTest {
         CHECK.due("fault(2)", x.fault(2), -1);
     }
 
+    private static void cut(String text, int n, int fault, int place) {
+        OwnerHeap x = new OwnerHeap();
+        Check.feed(x, text);
+        CHECK.due(n + " bytes of " + text, x.load(n, false), fault);
+        CHECK.due("place in " + n + " bytes of " + text, x.fault(1), place);
+    }
+
+    /** What is on the tape behind the first n bytes is no part of the TEXT. */
+    private static void cutsTokens() {
+        cut("main { say 1234567890; }", 20, 2, 20);
+        cut("main { say 1234567890; }", 21, 1, 11);
+        cut("main { say abcdefghijk; }", 21, 2, 21);
+        cut("main { say abcdefghijk; }", 22, 1, 11);
+        cut("main { say 1 != 2; }", 14, 1, 13);
+        cut("main { say 1 != 2; }", 15, 2, 15);
+        cut("main { } # note", 10, 0, -1);
+        cut("main { } x", 9, 0, -1);
+    }
+
     private static void longTexts() {
         String text = "main { say 7; }";
         text = text + " ".repeat(3000 - text.length());
@@ -127,6 +146,7 @@ public final class TapeTest {
         fillsUp();
         highestByteFirst();
         loadsPart();
+        cutsTokens();
         longTexts();
         manyMembers();
         faultLeavesAll();

@@ -57,6 +57,33 @@ public final class WalkTest {
         nothing(x, Integer.MAX_VALUE);
     }
 
+    /** The last OBJECT is a LEAK, too. */
+    private static void theLastLeaks() {
+        OwnerHeap x = run(CLASSES + "int go() { this.k = new K[world,this]; this.k.it = new R[this]; } } "
+            + "main { W[world] w = new W[world]; w.go(); }", true);
+        CHECK.due("leaks", x.leaks(), 1);
+        CHECK.due("leak(0)", x.leak(0), 3);
+        CHECK.due("past(3, 0)", x.past(3, 0), 2);
+        CHECK.due("past(3, 1)", x.past(3, 1), 3);
+        CHECK.due("above(3)", x.above(3), 2);
+    }
+
+    /**
+     * 1 leads to a (2) and b (3), a to y (4) and v (5), both to w (6), and b on a longer WAY to v: that
+     * a is not above v is seen only behind what was seen of w.
+     */
+    private static void seenLate() {
+        OwnerHeap x = run(CLASSES + "int go() { this.a = new R[this]; this.b = new R[this]; this.a.s = new R[this]; "
+            + "this.a.t = new R[this]; this.a.s.s = new R[this]; this.a.t.t = this.a.s.s; this.b.s = new R[this]; "
+            + "this.b.s.s = new R[this]; this.b.s.s.t = this.a.t; } } main { W[world] w = new W[world]; w.go(); }", true);
+        int[] above = {0, 0, 1, 1, 2, 1, 1, 3, 7};
+        for (int o = 1; o <= 8; o++) {
+            CHECK.due("above(" + o + ")", x.above(o), above[o]);
+        }
+        CHECK.due("leaks", x.leaks(), 0);
+        CHECK.due("way(3, 6)", x.way(3, 6), 4);
+    }
+
     /** One that nothing leads to has no WAY; an int in a FIELD is no HOP. */
     private static void noWay() {
         OwnerHeap x = run("class A[o] { int v; A[this] h; A[o] n; int f() { this.h = new A[this]; this.h.n = new A[this]; "
@@ -250,6 +277,8 @@ public final class WalkTest {
 
     public static void main(String[] args) {
         aLeak();
+        theLastLeaks();
+        seenLate();
         noWay();
         atAnyTime();
         longOnes();
