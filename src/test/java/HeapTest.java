@@ -83,6 +83,7 @@ public final class HeapTest {
         one(x, 5, new int[] {-1, 0, 0, 1, 2, 0, -1}, new int[] {-1, 0, -1, -1, -1}, new int[6]);
         one(x, 6, new int[] {-1, 2, 2, 1, 2, 1, -1}, new int[] {-1, 2, -1, -1, -1}, new int[] {0, 10, 7, 0, 0, 0});
         one(x, 7, new int[] {-1, 1, 6, 3, 4, 2, -1}, new int[] {-1, 6, 2, 0, -1}, new int[] {0, 7, 8, 9, -1, 0});
+        one(x, 8, new int[] {-1, 0, 6, 1, 2, 2, -1}, new int[] {-1, 6, -1, -1, -1}, new int[6]);
         one(x, 11, new int[] {-1, 1, 10, 3, 4, 3, -1}, new int[] {-1, 10, 6, 0, -1}, new int[] {0, 7, 12, 13, 0, 0});
         CHECK.due("OBJECTS", x.state(6), 13);
         CHECK.due("WORDS", x.state(5), 5 + 3 * (5 + 9 + 5 + 5));

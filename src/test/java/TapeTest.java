@@ -106,6 +106,9 @@ public final class TapeTest {
         CHECK.due("length", text.length() <= 3000, true);
         CHECK.due("many MEMBERS", Check.load(x, text.toString(), false), 0);
         CHECK.due("FIELDS", x.type(15, 2), 368);
+        CHECK.due("no CLASS 16", x.type(16, 2), -1);
+        CHECK.due("no OWNERS in it", x.isIn(16, -1, -1), false);
+        CHECK.due("those of CLASS 15", x.isIn(15, -2, 0), true);
         CHECK.due("start", x.start(371, 1), true);
         CHECK.due("run", x.run(10), 2);
         CHECK.due("the last FIELD", x.field(1, 367), 5);
