@@ -2151,7 +2151,7 @@ public final class OwnerHeap {
         }
     }
 
-    /** Does a RUN, STEP by STEP. Between two calls the next instruction takes a STEP. */
+    /** Does a RUN, STEP by STEP. Behind goOn() the next instruction takes a STEP. */
     private static final class Machine {
         static final int KEPT = 200;
         static final int GOING = 1;
@@ -2216,10 +2216,11 @@ public final class OwnerHeap {
             phase = GOING;
             frames.add(Members.MAIN, 0, 0);
             pc = program.members.start[Members.MAIN];
-            coast();
         }
 
         void goOn(int n) {
+            // A main without STATEMENTS has no STEP behind which its end could be reached.
+            coast();
             for (int k = 0; k < n && phase == GOING && pc < code.size; k++) {
                 int at = pc;
                 pc++;

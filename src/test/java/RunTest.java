@@ -46,10 +46,25 @@ public final class RunTest {
         CHECK.due("state(10)", x.state(10), -1);
     }
 
-    private static void endsAtOnce() {
-        OwnerHeap x = started("main { { } { { } } }", 8, 1);
-        states(x, "no STEP at all", 2, 0, 0, -1, 0, 0, 0, 0, 1, 0);
-        CHECK.due("none goes on", x.run(1), -1);
+    /** A main without STATEMENTS: start() only begins its RUN, run() brings it to its end. */
+    private static void endsWithoutSteps() {
+        for (String text : new String[] {"main {}", "main { { } { { } } }"}) {
+            OwnerHeap x = started(text, 25, 1);
+            states(x, "begun, " + text, 1, 0, 0, -1, 0, 0, 0, 1, 1, 0);
+            CHECK.due("main's call", x.call(0, 0), -1);
+            CHECK.due("main's OBJECT", x.call(0, 2), 0);
+            CHECK.due("no STATEMENT began", x.call(0, 3), -1);
+            CHECK.due("run(0)", x.run(0), -1);
+            CHECK.due("run(2001)", x.run(2001), -1);
+            states(x, "nothing happened, " + text, 1, 0, 0, -1, 0, 0, 0, 1, 1, 0);
+            CHECK.due("run(1)", x.run(1), 2);
+            states(x, "ended, " + text, 2, 0, 0, -1, 0, 0, 0, 0, 1, 0);
+            CHECK.due("no CALL is open", x.call(0, 2), -1);
+            CHECK.due("none goes on", x.run(1), -1);
+            CHECK.due("start anew", x.start(8, 40), true);
+            CHECK.due("run(2000)", x.run(2000), 2);
+            CHECK.due("still no STEP", x.state(4), 0);
+        }
     }
 
     /** The STEPS one by one: what each leaves behind. */
@@ -340,7 +355,7 @@ public final class RunTest {
 
     public static void main(String[] args) {
         starts();
-        endsAtOnce();
+        endsWithoutSteps();
         stepByStep();
         countsSteps();
         works();
