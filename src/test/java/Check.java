@@ -40,4 +40,45 @@ final class Check {
     static int load(OwnerHeap x, String text, boolean trust) {
         return x.load(feed(x, text), trust);
     }
+
+    /** A TEXT without a FAULT. */
+    void fine(String text) {
+        judged(0, text, false);
+    }
+
+    /** A TEXT with that FAULT; the sign @ (which is taken out) stands ahead of its place. */
+    void fault(int number, String marked) {
+        judged(number, marked, false);
+    }
+
+    void judged(int number, String marked, boolean trust) {
+        judgedAt(number, marked.indexOf('@'), marked.replace("@", ""), trust);
+    }
+
+    void judgedAt(int number, int place, String text, boolean trust) {
+        OwnerHeap x = new OwnerHeap();
+        due("load of " + text, load(x, text, trust), number);
+        due("fault(0) of " + text, x.fault(0), number);
+        due("fault(1) of " + text, x.fault(1), place);
+        due("start of " + text, x.start(100, 10), number == 0);
+    }
+
+    OwnerHeap loaded(String text, boolean trust) {
+        OwnerHeap x = new OwnerHeap();
+        due("load of " + text, load(x, text, trust), 0);
+        return x;
+    }
+
+    OwnerHeap started(String text, int words, int calls) {
+        OwnerHeap x = loaded(text, false);
+        due("start of " + text, x.start(words, calls), true);
+        return x;
+    }
+
+    /** The answers of state() from 0 on. */
+    void states(OwnerHeap x, String what, int... due) {
+        for (int i = 0; i < due.length; i++) {
+            due(what + ", state(" + i + ")", x.state(i), due[i]);
+        }
+    }
 }

@@ -14,14 +14,7 @@ public final class FaultTest {
     }
 
     private static void judge(int number, String marked, boolean trust) {
-        int place = marked.indexOf('@');
-        String text = marked.replace("@", "");
-        OwnerHeap x = new OwnerHeap();
-        CHECK.due("load of " + marked, Check.load(x, text, trust), number);
-        CHECK.due("fault(0) of " + marked, x.fault(0), number);
-        CHECK.due("fault(1) of " + marked, x.fault(1), place);
-        CHECK.due("fault(2) of " + marked, x.fault(2), -1);
-        CHECK.due("start of " + marked, x.start(100, 10), number == 0);
+        CHECK.judged(number, marked, trust);
     }
 
     /** A METHOD's BLOCK in a CLASS that has a bit of everything. */
@@ -29,10 +22,6 @@ public final class FaultTest {
         return "class A[o] { int v; int m() { return 1; } int n(A[o] a, int i) { return i; } } "
             + "class B[o,p] is A[o] { A[p] w; A[this] h; int g(A[this] a) { return 1; } A[this] k() { } } "
             + "class C[o,d] { int v; A[this] h; B[o,d] b; int f(int i, A[d] a) {" + statements + "} } main { }";
-    }
-
-    private static String times(String part, int many) {
-        return part.repeat(many);
     }
 
     private static void tokens() {
@@ -133,63 +122,6 @@ public final class FaultTest {
         fault(2, "main { say 1 as @int; }");
         fault(2, "main { say @world; }");
         fine("main { say 1 + - 2 - - - 3 * -4; }");
-    }
-
-    private static void manyOpen() {
-        fine("main " + times("{", 12) + times("}", 12));
-        fault(3, "main " + times("{", 12) + "@{" + times("}", 13));
-        fine("main { say " + times("(", 11) + "1" + times(")", 11) + "; }");
-        fault(3, "main { say " + times("(", 11) + "@(1" + times(")", 12) + "; }");
-        fine("main { say " + times("-", 11) + "1" + times("-1", 20) + "; }");
-        fault(3, "main { say " + times("-", 11) + "@-1; }");
-        fault(3, "main { say " + times("-(", 5) + "-@(1" + times(")", 6) + "; }");
-        fine("main { say -1 " + times("- -1 ", 30) + "; }");
-        fault(3, "class A[o] { int f() { say " + times("(", 10) + "@(1))))))))))); } } main { }");
-        fine("class A[o] { int f() { say " + times("(", 10) + "1" + times(")", 10) + "; } } main { }");
-        fault(3, "class A[o] { int f(int a) { a.f(a.f(a.f(a.f(a.f(a.f(a.f(a.f(a.f(a.f(a.f@(1))))))))))); } } main { }");
-        fault(3, "main " + times("{ if (1) ", 11) + "{ if @(1) { } }" + times("}", 11));
-    }
-
-    private static void manyTold() {
-        String sixteen = "";
-        for (int i = 0; i < 16; i++) {
-            sixteen += "class C" + i + "[o] { } ";
-        }
-        fine(sixteen + "main { }");
-        fault(3, sixteen + "@class C16[o] { } main { }");
-        fault(3, sixteen + "@class 5");
-        fine("class A[a,b,c,d,e] { A[a,b,c,d,e] x; } main { }");
-        fault(3, "class A[a,b,c,d,e,@f] { } main { }");
-        fault(2, "class A[a,b,c,d,e,@1] { } main { }");
-        fault(3, "class A[a,b,c,d,e] { A[a,b,c,d,e,@f] x; } main { }");
-        fault(3, "main { say new A[world,world,world,world,world,@world]; }");
-        fault(2, "main { say new A[world,world,world,world,world,@null]; }");
-        fine("class A[o] where " + times("o in o, ", 7) + "o in o { } main { }");
-        fault(3, "class A[o] where " + times("o in o, ", 8) + "@o in o { } main { }");
-        fault(2, "class A[o] where " + times("o in o, ", 8) + "@in o { } main { }");
-        String members = "";
-        for (int i = 0; i < 24; i++) {
-            members += "int v" + i + "; ";
-        }
-        fine("class A[o] { " + members + "} main { }");
-        fault(3, "class A[o] { " + members + "@int w; } main { }");
-        fault(3, "class A[o] { " + members + "@A[o] f() { } } main { }");
-        fault(2, "class A[o] { " + members + "@1 } main { }");
-        fine("class A[o] { int f(int a, int b, int c, int d, int e, int f) { this.f(1,2,3,4,5,6); } } main { }");
-        fault(3, "class A[o] { int f(int a, int b, int c, int d, int e, int f, @int g) { } } main { }");
-        fault(2, "class A[o] { int f(int a, int b, int c, int d, int e, int f, @g) { } } main { }");
-        fault(3, "main { null.f(1,2,3,4,5,6,@(7)); }");
-        fault(3, "main { null.f(1,2,3,4,5,6,@-7); }");
-        fault(2, "main { null.f(1,2,3,4,5,6,@); }");
-        String variables = "";
-        for (int i = 0; i < 16; i++) {
-            variables += i == 7 ? "{ int v7 = 0; } " : "int v" + i + " = 0; ";
-        }
-        fine("main { " + variables + "}");
-        fault(3, "main { " + variables + "int @w = 0; }");
-        fault(2, "main { " + variables + "int @1 = 0; }");
-        fault(3, "class A[o] { int f(int a) { " + variables.replace("v15", "@v15") + "} } main { }");
-        fine("class A[o] { int f() { " + variables + "} int g() { " + variables + "} } main { }");
     }
 
     /** The first along the text; what is judged comes behind all that is read. */
@@ -390,8 +322,6 @@ public final class FaultTest {
         tokens();
         rules();
         statements();
-        manyOpen();
-        manyTold();
         firstAlong();
         twice();
         unknown();

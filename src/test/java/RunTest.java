@@ -2,26 +2,16 @@
 public final class RunTest {
     private static final Check CHECK = new Check();
 
-    private static OwnerHeap loaded(String text) {
-        OwnerHeap x = new OwnerHeap();
-        CHECK.due("load of " + text, Check.load(x, text, false), 0);
-        return x;
-    }
-
     private static OwnerHeap started(String text, int words, int calls) {
-        OwnerHeap x = loaded(text);
-        CHECK.due("start of " + text, x.start(words, calls), true);
-        return x;
+        return CHECK.started(text, words, calls);
     }
 
     private static void states(OwnerHeap x, String what, int... due) {
-        for (int i = 0; i < due.length; i++) {
-            CHECK.due(what + ", state(" + i + ")", x.state(i), due[i]);
-        }
+        CHECK.states(x, what, due);
     }
 
     private static void starts() {
-        OwnerHeap x = loaded("main { say 1; }");
+        OwnerHeap x = CHECK.loaded("main { say 1; }", false);
         CHECK.due("7 WORDS", x.start(7, 1), false);
         CHECK.due("4001 WORDS", x.start(4001, 1), false);
         CHECK.due("0 CALLS", x.start(8, 0), false);

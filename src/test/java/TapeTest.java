@@ -27,6 +27,108 @@ public final class TapeTest {
         CHECK.due("bytes over 127 in a note", x.load(20, false), 0);
     }
 
+    /** "Twenty bytes come behind those on the tape, the highest of each int first": each in its place. */
+    private static void eachByteInItsPlace() {
+        for (int bad : new int[] {'$', 0, 127, 128, 255}) {
+            for (int at = 0; at < 40; at++) {
+                OwnerHeap x = new OwnerHeap();
+                for (int first = 0; first < 40; first += 20) {
+                    int[] v = new int[5];
+                    for (int j = 0; j < 20; j++) {
+                        v[j / 4] |= (first + j == at ? bad : ' ') << (24 - 8 * (j % 4));
+                    }
+                    CHECK.due("feed", x.feed(v[0], v[1], v[2], v[3], v[4]), first + 20);
+                }
+                CHECK.due("load with " + bad + " at " + at, x.load(40, false), 1);
+                CHECK.due("place of " + bad + " at " + at, x.fault(1), at);
+            }
+        }
+    }
+
+    /** "NONE, and nothing happens, if n is below 0, or the tape has not so many": one less and one more. */
+    private static void asManyAsThereAre() {
+        for (int feeds = 0; feeds <= 150; feeds += 25) {
+            OwnerHeap x = new OwnerHeap();
+            Check.feed(x, " ".repeat(20 * feeds));
+            CHECK.due("one more", x.load(20 * feeds + 1, false), -1);
+            CHECK.due("below 0", x.load(-1, false), -1);
+            CHECK.due("no load yet", x.fault(0), -1);
+            CHECK.due("all", x.load(20 * feeds, false), 2);
+            CHECK.due("its end", x.fault(1), 20 * feeds);
+            CHECK.due("the tape is empty", x.load(1, false), -1);
+            CHECK.due("nothing of it is left", x.load(0, false), 2);
+            CHECK.due("at its end", x.fault(1), 0);
+            Check.feed(x, " ".repeat(20 * feeds));
+            int less = Math.max(20 * feeds - 1, 0);
+            CHECK.due("one less", x.load(less, false), 2);
+            CHECK.due("its end", x.fault(1), less);
+            CHECK.due("feed on the empty tape", x.feed(0, 0, 0, 0, 0), 20);
+        }
+    }
+
+    /** "TEXTS, of at most 3,000 bytes": just so many, to the last byte. */
+    private static void fullTexts() {
+        String sum = "main{say 1" + "+1".repeat(1494) + ";}";
+        CHECK.due("length", sum.length(), 3000);
+        OwnerHeap x = new OwnerHeap();
+        CHECK.due("3,000 bytes", Check.load(x, sum, false), 0);
+        CHECK.due("no place", x.fault(1), -1);
+        CHECK.due("start", x.start(8, 1), true);
+        CHECK.due("run", x.run(1495), 2);
+        CHECK.due("said", x.said(0), 1495);
+        Check.feed(x, sum);
+        CHECK.due("without its last byte", x.load(2999, false), 2);
+        CHECK.due("at the end", x.fault(1), 2999);
+        CHECK.due("with another last byte", Check.load(x, sum.substring(0, 2999) + "$", false), 1);
+        CHECK.due("at it", x.fault(1), 2999);
+        CHECK.due("with another last byte", Check.load(x, sum.substring(0, 2999) + ";", false), 2);
+        CHECK.due("at it", x.fault(1), 2999);
+        CHECK.due("not ended", Check.load(x, " " + sum.substring(0, 2999), false), 2);
+        CHECK.due("at its length", x.fault(1), 3000);
+        CHECK.due("a note to its end", Check.load(x, "main{say 2;}#" + "$".repeat(2987), false), 0);
+        CHECK.due("blanks to its end", Check.load(x, "main{say 2;}" + "\n".repeat(2988), false), 0);
+        CHECK.due("blanks ahead", Check.load(x, " ".repeat(2988) + "main{say 3;}", false), 0);
+        x.start(8, 1);
+        x.run(1);
+        CHECK.due("said", x.said(0), 3);
+        CHECK.due("its STATEMENT's place", Check.load(x, " ".repeat(2985) + "main{say null;}", false), 7);
+        CHECK.due("far behind", x.fault(1), 2990);
+        CHECK.due("nothing but signs", Check.load(x, ";".repeat(3000), false), 2);
+        CHECK.due("nothing but names", Check.load(x, "a ".repeat(1500), false), 2);
+        CHECK.due("nothing but a note", Check.load(x, "#".repeat(3000), false), 2);
+        CHECK.due("its end", x.fault(1), 3000);
+        CHECK.due("nothing but {", Check.load(x, "main" + "{".repeat(2996), false), 3);
+        CHECK.due("the 13th", x.fault(1), 16);
+        CHECK.due("the latest PROGRAM is there", x.start(8, 1), true);
+    }
+
+    /** "NONE for others, and ahead of any": of fault(). */
+    private static void faultsAsked() {
+        OwnerHeap x = new OwnerHeap();
+        int[] others = {Integer.MIN_VALUE, -2, -1, 2, 3, Integer.MAX_VALUE};
+        for (int what : others) {
+            CHECK.due("ahead of any, fault(" + what + ")", x.fault(what), -1);
+        }
+        x.load(1, false);
+        CHECK.due("behind NONE, fault(0)", x.fault(0), -1);
+        CHECK.due("behind NONE, fault(1)", x.fault(1), -1);
+        Check.load(x, "main { } main", false);
+        CHECK.due("a FAULT", x.fault(0), 2);
+        CHECK.due("its place", x.fault(1), 9);
+        for (int what : others) {
+            CHECK.due("behind a FAULT, fault(" + what + ")", x.fault(what), -1);
+        }
+        x.load(21, false);
+        CHECK.due("behind NONE, fault(0)", x.fault(0), 2);
+        CHECK.due("behind NONE, fault(1)", x.fault(1), 9);
+        Check.load(x, "main { }", false);
+        CHECK.due("without one, fault(0)", x.fault(0), 0);
+        CHECK.due("without one, fault(1)", x.fault(1), -1);
+        for (int what : others) {
+            CHECK.due("without one, fault(" + what + ")", x.fault(what), -1);
+        }
+    }
+
     private static void loadsPart() {
         OwnerHeap x = new OwnerHeap();
         Check.feed(x, "main { say 12345; }");
@@ -148,6 +250,10 @@ public final class TapeTest {
     public static void main(String[] args) {
         fillsUp();
         highestByteFirst();
+        eachByteInItsPlace();
+        asManyAsThereAre();
+        fullTexts();
+        faultsAsked();
         loadsPart();
         cutsTokens();
         longTexts();

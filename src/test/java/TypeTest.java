@@ -36,7 +36,68 @@ public final class TypeTest {
         }
     }
 
+    /** Five NAMES, eight INS, the 16th CLASS. */
+    private static void lastOfAll() {
+        StringBuilder text = new StringBuilder();
+        for (int c = 0; c < 15; c++) {
+            text.append("class C").append(c).append("[o] { int v").append(c).append("; } ");
+        }
+        int place = text.length() + 6;
+        text.append("class Last[a,b,c,d,e] is C14[a] where b in c, c in d, b in b, a in e, a in a, b in c, a in b, e in e { int f() { } } main { }");
+        OwnerHeap x = CHECK.loaded(text.toString(), false);
+        int[] due = {5, 14, 1, 1, 8, place};
+        for (int what = 0; what < 6; what++) {
+            CHECK.due("type(15, " + what + ")", x.type(15, what), due[what]);
+        }
+        for (int what : new int[] {Integer.MIN_VALUE, -1, 6, Integer.MAX_VALUE}) {
+            CHECK.due("type(15, " + what + ")", x.type(15, what), -1);
+        }
+        for (int c : new int[] {Integer.MIN_VALUE, -1, 16, Integer.MAX_VALUE}) {
+            for (int what = 0; what < 6; what++) {
+                CHECK.due("type(" + c + ", " + what + ")", x.type(c, what), -1);
+            }
+            CHECK.due("isIn(" + c + ", -1, -1)", x.isIn(c, -1, -1), false);
+            CHECK.due("isIn(" + c + ", 0, 0)", x.isIn(c, 0, 0), false);
+        }
+        known(x, 15, "1111111", "0100000", "0111111", "0101110", "0100110", "0100010", "0100001");
+        known(x, 14, "111", "010", "011");
+    }
+
+    /** "what INS tell; if a is IN b, b IN c, a IN c": in any order in which they are told, and around. */
+    private static void insInAnyOrder() {
+        String[] orders = {"b in c, c in d, d in e", "d in e, c in d, b in c", "c in d, b in c, d in e", "d in e, b in c, c in d"};
+        for (String order : orders) {
+            OwnerHeap x = CHECK.loaded("class A[a,b,c,d,e] where " + order + " { } main { }", false);
+            known(x, 0, "1111111", "0100000", "0111111", "0101111", "0100111", "0100011", "0100001");
+            x = CHECK.loaded("class A[a,b,c,d,e] where " + order + ", e in b { } main { }", false);
+            known(x, 0, "1111111", "0100000", "0111111", "0101111", "0101111", "0101111", "0101111");
+            x = CHECK.loaded("class A[a,b,c,d,e] where " + order + ", e in a { } main { }", false);
+            known(x, 0, "1111111", "0100000", "0111111", "0111111", "0111111", "0111111", "0111111");
+        }
+    }
+
+    /** One CLASS's INS, NAMES and MEMBERS are not another one's, nor those of a PROGRAM ahead. */
+    private static void eachItsOwn() {
+        OwnerHeap x = CHECK.loaded("class A[a,b,c] where b in c, c in a { int v; int f() { } } class B[a,b,c] { } main { }", true);
+        known(x, 0, "11111", "01000", "01111", "01111", "01111");
+        known(x, 1, "11111", "01000", "01111", "01010", "01001");
+        CHECK.due("another PROGRAM", Check.load(x, "class C[a,b,c] { } class D[a,b] is C[a,b,b] { } main { }", false), 0);
+        known(x, 0, "11111", "01000", "01111", "01010", "01001");
+        int[][] due = {{3, -1, 0, 0, 0, 6}, {2, 0, 0, 0, 0, 25}};
+        for (int c = 0; c < 2; c++) {
+            for (int what = 0; what < 6; what++) {
+                CHECK.due("type(" + c + ", " + what + ")", x.type(c, what), due[c][what]);
+            }
+        }
+        CHECK.due("no third one", x.type(2, 0), -1);
+        CHECK.due("a FAULT", Check.load(x, "class E[a] { int v; } class E[a] { } main { }", false), 4);
+        CHECK.due("the PROGRAM stays", x.type(0, 0), 3);
+    }
+
     public static void main(String[] args) {
+        lastOfAll();
+        insInAnyOrder();
+        eachItsOwn();
         OwnerHeap x = new OwnerHeap();
         CHECK.due("type without a PROGRAM", x.type(0, 0), -1);
         CHECK.due("isIn without a PROGRAM", x.isIn(0, 0, 0), false);
