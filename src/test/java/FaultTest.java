@@ -124,6 +124,29 @@ public final class FaultTest {
         fine("main { say 1 + - 2 - - - 3 * -4; }");
     }
 
+    /** "also the ; or = behind an E that may not have it": an operator or as makes it another E. */
+    private static void notSetNorCalled() {
+        for (String sign : new String[] {"+", "-", "*", "/", "%", "<", "==", "!="}) {
+            fault(2, "main { int a = 1; a " + sign + " a @= 2; }");
+            fault(2, "main { int a = 1; a.v " + sign + " a.v @= 2; }");
+            fault(2, "main { null.f() " + sign + " null.f()@; }");
+            fault(2, "main { null.f() " + sign + " 1@; }");
+        }
+        fault(2, "main { a as A[world] @= null; }");
+        fault(2, "main { a.n as A[world] @= null; }");
+        fault(2, "main { a.f() as A[world]@; }");
+        fault(2, "main { a.f() as A[world] @= null; }");
+        fault(2, "main { a.n@; }");
+        fault(2, "main { a.f() @= null; }");
+        fault(2, "main { (a.n) @= null; }");
+        fault(2, "main { -a.f()@; }");
+        fault(2, "main { new A[world] @= null; }");
+        fault(2, "main { say new @int; }");
+        fault(2, "main { say null as @int; }");
+        fine("class A[o] { int v; A[o] n; A[o] f() { } } main { A[world] a = null; a = a; a.n = a; (a).n = a; a.f(); (a).f(); "
+            + "a.f().n = a; a.n.f(); a.f().f(); (a as A[world]).n = a; a as A[world].n = a; new A[world].f(); }");
+    }
+
     /** The first along the text; what is judged comes behind all that is read. */
     private static void firstAlong() {
         fault(2, "class A[o] { Q[o] v; } class A[o] { } main { } @main");
@@ -275,6 +298,46 @@ public final class FaultTest {
         judge(7, two + "class C[o,d] { int f() { T[d,o] b @= new T[o,d]; } } main { }", true);
     }
 
+    /** "what its CLASS's INS tell holds of its OWNERS": each of eight, the first and the last, too. */
+    private static void eachIn() {
+        String[] ins = {"b in b", "c in b", "c in c", "d in c", "d in d", "e in d", "e in e", "e in b"};
+        for (int k = 0; k < 8; k++) {
+            StringBuilder told = new StringBuilder();
+            for (int i = 0; i < 8; i++) {
+                told.append(i == 0 ? "" : ", ").append(i == k ? "e in c" : "a in b");
+            }
+            String text = "class Z[o] { } class I[a,b,c,d,e] where " + told + " { } class C[o,p,q] { KIND f; } main { }";
+            fine(text.replace("KIND", "I[o,p,p,q,p]"));
+            fault(8, text.replace("KIND", "@I[o,p,p,q,q]"));
+            fine(text.replace("KIND", "I[o,q,q,p,q]"));
+            fine(text.replace("KIND", "I[o,q,world,p,p]"));
+            fine(text.replace("KIND", "I[o,q,p,p,o]"));
+            fault(8, text.replace("KIND", "@I[o,q,o,p,p]"));
+        }
+        String all = "class I[a,b,c,d,e] where " + String.join(", ", ins) + " { } class C[o,p,q] where q in p { KIND f; } main { }";
+        fine(all.replace("KIND", "I[o,p,p,q,q]"));
+        fine(all.replace("KIND", "I[o,world,p,q,o]"));
+        fault(8, all.replace("KIND", "@I[o,p,q,p,q]"));
+        fault(8, all.replace("KIND", "@I[o,p,p,q,p]"));
+        fine(all.replace("KIND", "I[this,p,q,o,this]"));
+        fault(8, all.replace("KIND", "@I[o,p,q,o,world]"));
+    }
+
+    /** A TYPE FITS those from above, also that of the first CLASS and of the last. */
+    private static void fitting() {
+        StringBuilder text = new StringBuilder("class C0[o] is C1[o] { int f(C0[o] a) { TOLD } } ");
+        for (int c = 1; c < 16; c++) {
+            text.append("class C").append(c).append(c == 15 ? "[o]" : "[o] is C" + (c + 1) + "[o]").append(" { } ");
+        }
+        text.append("main { }");
+        for (int c = 0; c < 16; c++) {
+            fine(text.toString().replace("TOLD", "C" + c + "[o] b = a; b = new C0[o]; b = this; b = null;"));
+            fault(c == 0 ? 0 : 7, text.toString().replace("TOLD", "C" + c + "[o] b = a; a " + (c == 0 ? "" : "@") + "= b;"));
+            fault(7, text.toString().replace("TOLD", "C" + c + "[world] b @= a;"));
+            fine(text.toString().replace("TOLD", "C" + c + "[this] b = new C0[this];"));
+        }
+    }
+
     private static void overs() {
         String above = "class A[o,p] { int f(A[p,p] a, int i) { } A[o,p] g() { } A[this,p] h() { } } ";
         fine(above + "class B[o,q] is A[o,q] { int f(A[q,q] b, int j) { } A[o,q] g() { } A[this,q] h() { } } main { }");
@@ -289,6 +352,49 @@ public final class FaultTest {
         fault(9, above + "class B[o,q] is A[o,q] { } class C[o] is B[o,o] { A[o,world] @g() { } } main { }");
         fine(above + "class B[o,q] is A[o,q] { } class C[o] is B[o,o] { A[o,o] g() { } } main { }");
         fault(9, "class B[o] is A[o] { int @f() { } } class A[o] { A[o] f() { } } main { }");
+        String six = "A[o] a, int b, A[o] c, int d, A[o] e, int f";
+        String from = "class A[o] { int f(" + six + ") { } int g(A[o] a) { } } ";
+        fine(from + "class B[o] is A[o] { int f(" + six + ") { } int h(int a) { } } main { }");
+        fine(from + "class B[o] is A[o] { int g(A[o] b) { } int h(int a, int b) { } } main { }");
+        String[] types = six.split(", ");
+        for (int i = 0; i < 6; i++) {
+            String[] other = types.clone();
+            other[i] = i % 2 == 0 ? "int x" : "A[o] x";
+            fault(9, from + "class B[o] is A[o] { int @f(" + String.join(", ", other) + ") { } } main { }");
+            other[i] = i % 2 == 0 ? "A[world] x" : "B[o] x";
+            fault(9, from + "class B[o] is A[o] { int @f(" + String.join(", ", other) + ") { } } main { }");
+        }
+        fault(9, from + "class B[o] is A[o] { int @f(A[o] a, int b, A[o] c, int d, A[o] e) { } } main { }");
+        fault(9, from + "class B[o] is A[o] { int @g() { } } main { }");
+        fault(9, from + "class B[o] is A[o] { int @g(A[o] a, A[o] b) { } } main { }");
+        fault(9, "class A[o] { int f() { } } class B[o] is A[o] { int @f(int a) { } } main { }");
+    }
+
+    /** From the topmost of 16 CLASSES to the undermost. */
+    private static void farAbove() {
+        StringBuilder text = new StringBuilder("class C0[o] { int v; int f(C0[o] a) { } } ");
+        for (int c = 1; c < 15; c++) {
+            text.append("class C").append(c).append("[o] is C").append(c - 1).append("[o] { } ");
+        }
+        String under = text + "class C15[o] is C14[o] { MEMBER } main { C15[world] c = new C15[world]; c.v = 1; c.f(c); }";
+        fine(under.replace("MEMBER", ""));
+        fine(under.replace("MEMBER", "int f(C0[o] b) { }"));
+        fault(4, under.replace("MEMBER", "int @v;"));
+        fault(4, under.replace("MEMBER", "int @v() { }"));
+        fault(4, under.replace("MEMBER", "int @f;"));
+        fault(9, under.replace("MEMBER", "int @f(C15[o] b) { }"));
+        fault(9, under.replace("MEMBER", "C0[o] @f(C0[o] b) { }"));
+        fault(11, "class C0[o] @is C15[o] { } " + row("class C# [o] is C", 1, 16) + "main { }");
+        fine("class C0[o] { } " + row("class C# [o] is C", 1, 16) + "main { }");
+    }
+
+    /** CLASSES one above the other, each is the one ahead of it. */
+    private static String row(String part, int from, int to) {
+        StringBuilder made = new StringBuilder();
+        for (int c = from; c < to; c++) {
+            made.append(part.replace("#", "" + c)).append(c - 1).append("[o] { } ");
+        }
+        return made.toString();
     }
 
     private static void hidden() {
@@ -304,6 +410,21 @@ public final class FaultTest {
         fine("class A[o] { A[this] h; } class B[o] is A[o] { int f() { this.h = new A[this]; } } main { }");
         fault(10, "class A[o] { A[this] h; } main { A[world] a = null; a.@h = null; }");
         fault(10, "class A[o] { A[this] f() { } } main { new A[world].@f(); }");
+        String many = "class A[o] { int f(int a, int b, int c, int d, int e, int f) { } int g(A[this] a) { } int h() { } "
+            + "int k(int a, int b, int c, int d, int e, A[this] f) { } A[this] l(int a) { } } main { A[world] a = new A[world]; ";
+        fine(many + "a.f(1, 2, 3, 4, 5, 6); a.h(); }");
+        fault(10, many + "a.@g(null); }");
+        fault(10, many + "a.@k(1, 2, 3, 4, 5, null); }");
+        fault(10, many + "a.@l(1); }");
+        for (int i = 0; i < 5; i++) {
+            String kind = "A[world,world,world,world,world]";
+            String[] owners = {"a", "b", "c", "d", "e"};
+            owners[i] = "this";
+            String hides = "class A[a,b,c,d,e] { A[" + String.join(",", owners) + "] h; int f(int i, A[" + String.join(",", owners)
+                + "] a) { } } main { " + kind + " a = null; ";
+            judge(10, hides + "say a.@h == null; }", true);
+            judge(10, hides + "a.@f(1, null); }", true);
+        }
     }
 
     private static void aboves() {
@@ -322,13 +443,17 @@ public final class FaultTest {
         tokens();
         rules();
         statements();
+        notSetNorCalled();
         firstAlong();
         twice();
         unknown();
         numbersOf();
         kinds();
         owners();
+        eachIn();
+        fitting();
         overs();
+        farAbove();
         hidden();
         aboves();
         CHECK.end();

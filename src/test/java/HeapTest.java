@@ -65,8 +65,31 @@ public final class HeapTest {
         }
     }
 
+    /** "FIELDS: those from above first, from the topmost CLASS on, each as told", whichever CLASS is told first. */
+    private static void fieldsFromAbove() {
+        String under = "class C[o] is B[o] { int c; int m() { } C[o] d; } ";
+        String middle = "class B[o] is A[o] { int n() { } int b; } ";
+        String top = "class A[o] { int a; int e; int k() { } } ";
+        String main = "main { C[world] c = new C[world]; c.a = 1; c.e = 2; c.b = 3; c.c = 4; c.d = c; B[world] b = new B[world]; b.b = 5; b.e = 6; "
+            + "A[world] a = new A[world]; a.e = 7; }";
+        for (String text : new String[] {under + middle + top, under + top + middle, middle + under + top, middle + top + under,
+            top + under + middle, top + middle + under}) {
+            OwnerHeap x = CHECK.started(text + main, 100, 1);
+            CHECK.due("run", x.run(100), 2);
+            row("fields of 1", -1, new int[] {0, 1, 2, 3, 4, 1}, fields(x, 1));
+            row("fields of 2", -1, new int[] {0, 0, 6, 5, 0, 0}, fields(x, 2));
+            row("fields of 3", -1, new int[] {0, 0, 7, 0, 0, 0}, fields(x, 3));
+            CHECK.due("WORDS", x.state(5), 8 + 6 + 5);
+            CHECK.due("FIELDS of 1", x.object(1, 3), 5);
+            CHECK.due("FIELDS of 2", x.object(2, 3), 3);
+            CHECK.due("FIELDS of 3", x.object(3, 3), 2);
+            CHECK.due("a HOP to itself alone", x.way(1, 2), -1);
+        }
+    }
+
     public static void main(String[] args) {
         worldInside();
+        fieldsFromAbove();
         OwnerHeap x = new OwnerHeap();
         none(x, 0);
         none(x, 1);

@@ -286,6 +286,47 @@ public final class LimitTest {
         CHECK.due("behind it", x.owner(1, 5), -1);
     }
 
+    /** METHODS with PARAMS to a TEXT's end: the last one is as good as the first. */
+    private static void manyMethods() {
+        StringBuilder text = new StringBuilder();
+        for (int c = 0; c < 7; c++) {
+            text.append("class C").append(c).append("[o]{");
+            for (int m = 0; m < 24; m++) {
+                text.append("int ").append((char) ('a' + m)).append(c == 6 && m == 23 ? "(int a,int b,C6[o] c){return a-b;}" : "(int a){}");
+            }
+            text.append("}");
+        }
+        text.append("main{C6[world]x=new C6[world];say x.x(9,5,x);say x.a(3);}");
+        CHECK.due("it fits", text.length() <= 3000, true);
+        OwnerHeap x = CHECK.started(text.toString(), 8, 2);
+        CHECK.due("METHODS", x.type(6, 3), 24);
+        CHECK.due("up to the call", x.run(4), 1);
+        CHECK.due("CLASS", x.call(1, 0), 6);
+        CHECK.due("METHOD", x.call(1, 1), 23);
+        CHECK.due("the last PARAM", x.variable(1, 2), 1);
+        CHECK.due("run", x.run(2000), 2);
+        CHECK.due("said", x.said(0), 4);
+        CHECK.due("said", x.said(1), 0);
+        fault(7, text.toString().replace("x.x(9,5,x)", "x.x(9,5,@7)"));
+        fault(7, text.toString().replace("x.x(9,5,x)", "x.x(@x,5,x)"));
+        fault(6, text.toString().replace("x.x(9,5,x)", "x.@x(9,5)"));
+        fault(7, text.toString().replace("x.a(3)", "x.a(@x)"));
+    }
+
+    /** 16 CLASSES, each with FIELDS of the others. */
+    private static void fieldsOfAll() {
+        StringBuilder text = new StringBuilder();
+        for (int c = 0; c < 16; c++) {
+            text.append("class C").append(c).append("[o]{int v;C").append((c + 1) % 16).append("[o] n;}");
+        }
+        text.append("main{C0[world]a=new C0[world];a.n=new C1[world];a.n.n=new C2[world];C15[world]z=new C15[world];z.n=a;z.v=3;}");
+        OwnerHeap x = CHECK.started(text.toString(), 100, 1);
+        CHECK.due("run", x.run(2000), 2);
+        CHECK.due("way(4, 3)", x.way(4, 3), 3);
+        CHECK.due("way(3, 4)", x.way(3, 4), -1);
+        CHECK.due("CLASS", x.object(4, 0), 15);
+    }
+
     public static void main(String[] args) {
         twelveOpen();
         openInAClass();
@@ -300,6 +341,8 @@ public final class LimitTest {
         arguments();
         variables();
         allFull();
+        manyMethods();
+        fieldsOfAll();
         CHECK.end();
     }
 }

@@ -491,6 +491,103 @@ public final class RunEdgeTest {
         CHECK.due("STATEMENT", x.call(1, 3), statement);
     }
 
+    /** "a NAME what it stands for in that OBJECT, as of the CLASS in which the METHOD is told": world, too. */
+    private static void namesThatStand() {
+        String a = "class A[o,p] { int v; X[p] x; X[o] y; int mk() { this.x = new X[p]; this.y = new X[o]; } "
+            + "int ask(X[p] x) { X[p] z = x as X[p]; } A[o,p] like() { return new A[o,p]; } } class X[o] { int w; } ";
+        // the NAMES of five CLASSES stand for other OWNERS in A: its p is world, the 2nd, the 5th, the 1st
+        String[] kinds = {"world", "b", "e", "a"};
+        for (String p : kinds) {
+            String text = a + "class B[a,b,c,d,e] is A[a," + p + "] { int first; int go() { this.v = 7; this.first = 8; this.mk(); this.ask(this.x); } } "
+                + "class M[o] { B[this,o,this,world,this] b; int go() { this.b = new B[this,o,this,world,this]; this.b.go(); say 1; } "
+                + "A[this,P] c; int like() { this.c = this.b.like(); } } main { M[world] m = new M[world]; m.go(); m.like(); }";
+            String stands = p.equals("b") ? "o" : p.equals("world") ? "world" : "this";
+            OwnerHeap x = CHECK.loaded(text.replace("A[this,P]", "A[this," + stands + "]"), false);
+            CHECK.due("start", x.start(100, 9), true);
+            CHECK.due("run with " + p, x.run(2000), 2);
+            CHECK.due("all was done", x.said(0), 1);
+            int due = stands.equals("this") ? 1 : 0;
+            CHECK.due("owner of X[p] for " + p, x.owner(3, 0), due);
+            CHECK.due("owner of X[o] for " + p, x.owner(4, 0), 1);
+            CHECK.due("what like() made: owner", x.owner(5, 0), 1);
+            CHECK.due("what like() made: its second OWNER for " + p, x.owner(5, 1), due);
+            CHECK.due("FIELD x", x.field(2, 1), 3);
+            CHECK.due("FIELD y", x.field(2, 2), 4);
+            CHECK.due("FIELD first", x.field(2, 3), 8);
+        }
+    }
+
+    private static void cast(boolean goes, String from, String to) {
+        String text = "class Z[o] { int q; } class A[o,p] { int v; } class M[o,d] { Z[world] z; "
+            + "int go(int i) { A[FROM] a = null; if (i) { a = new A[FROM]; } say 1; A[TO] b = a as A[TO]; say 2; return b == a; } } "
+            + "class N[o] { M[this,o] m; M[o,o] n; int go(int i) { this.m = new M[this,o]; return this.m.go(i); } } "
+            + "main { Z[world] z = new Z[world]; N[world] n = new N[world]; say n.go(0); say n.go(1); }";
+        text = text.replace("FROM", from).replace("TO", to);
+        OwnerHeap x = CHECK.loaded(text, true);
+        CHECK.due("start", x.start(100, 9), true);
+        CHECK.due("from " + from + " as " + to, x.run(2000), goes ? 2 : 3);
+        CHECK.due("null is as any of " + to, x.said(2), 1);
+        CHECK.due("TROUBLE of " + to, x.state(2), goes ? 0 : 3);
+        CHECK.due("PLACE of " + to, x.state(3), goes ? -1 : text.indexOf("as A["));
+        CHECK.due("numbers said of " + to, x.state(9), goes ? 6 : 4);
+    }
+
+    /** "as: null, or an OBJECT whose TYPE FITS that TYPE by the OBJECTS that its OWNERS are": each OWNER is asked. */
+    private static void castsByOwners() {
+        String[] owners = {"this", "o", "d", "world"};
+        // in M[this,o] of an N[world]: this is the M, o the N, d and world are world
+        int[] are = {2, 1, 0, 0};
+        for (int i = 0; i < 16; i++) {
+            for (int j = 0; j < 16; j++) {
+                boolean goes = are[i / 4] == are[j / 4] && are[i % 4] == are[j % 4];
+                cast(goes, owners[i / 4] + "," + owners[i % 4], owners[j / 4] + "," + owners[j % 4]);
+            }
+        }
+        saidBy("class A[o] { } class B[o] is A[o] { } main { A[world] a = null as B[world]; say a == null; A[world] c = null; "
+            + "c = c as B[world]; say c == null; say null as A[world] == null; }", 1, 1, 1);
+    }
+
+    /** Up and down a row of CLASSES: those it is, and those it is not. */
+    private static void castsByClasses() {
+        StringBuilder classes = new StringBuilder("class C0[o] { } ");
+        for (int c = 1; c < 8; c++) {
+            classes.append("class C").append(c).append("[o] is C").append(c - 1).append("[o] { } ");
+        }
+        classes.append("class D[o] is C3[o] { } main { C0[world] a = new ");
+        for (int made = 0; made < 8; made++) {
+            for (int to = 0; to < 8; to++) {
+                OwnerHeap x = CHECK.started(classes + "C" + made + "[world]; a = a as C" + to + "[world]; }", 8, 1);
+                CHECK.due("C" + made + " as C" + to, x.run(10), to <= made ? 2 : 3);
+            }
+            OwnerHeap x = CHECK.started(classes + "C" + made + "[world]; a = a as D[world]; }", 8, 1);
+            CHECK.due("C" + made + " as D", x.run(10), 3);
+            OwnerHeap y = CHECK.started(classes + "D[world]; a = a as C" + made + "[world]; }", 8, 1);
+            CHECK.due("D as C" + made, y.run(10), made <= 3 ? 2 : 3);
+        }
+    }
+
+    private static OwnerHeap longRun(String text) {
+        OwnerHeap x = CHECK.started(text, 8, 3);
+        int state = 1;
+        for (int k = 0; k < 100 && state == 1; k++) {
+            state = x.run(2000);
+        }
+        CHECK.due("state of " + text, state, 2);
+        return x;
+    }
+
+    /** What a STATEMENT leaves behind does not grow, however often it is done. */
+    private static void oftenDone() {
+        String a = "class A[o] { int f(int n) { return n; } A[o] me() { return this; } int w(int n) { while (n) { n = n - 1; if (n % 2) { } else { } } return 5; } } "
+            + "main { A[world] a = new A[world]; int i = 0; while (i < 6000) { ";
+        String z = " i = i + 1; } return 1000 + 10 * (a.f(i) - a.f(5000)); }";
+        for (String often : new String[] {"", "a.f(i);", "a.me();", "i = i;", "int j = i;", "if (i) { } else { }", "if (i % 3) { a = a; }", "{ { } }",
+            "while (0) { }", "say i;", "a.me().f(1);"}) {
+            CHECK.due("behind " + often, longRun(a + often + z).state(1), 11000);
+        }
+        saidBy(a.replace("6000", "0") + "} say 100 + a.w(5); say a.w(3) * 10 + a.w(4); say a.f(1) - (a.w(2) - a.f(a.w(0))); }", 105, 55, 1);
+    }
+
     /** "An object is used for at most 512 calls": the last of them is as good as the first. */
     private static void lastCall() {
         OwnerHeap x = new OwnerHeap();
@@ -524,6 +621,10 @@ public final class RunEdgeTest {
         fullOfWaiting();
         anew();
         callsFromTheirBeginning();
+        namesThatStand();
+        castsByOwners();
+        castsByClasses();
+        oftenDone();
         lastCall();
         CHECK.end();
     }

@@ -183,12 +183,57 @@ public final class WalkEdgeTest {
         pasts(x, 3);
     }
 
+    /** What the first OBJECT leads to and another one owns is a LEAK, though all WAYS go through the first. */
+    private static void underTheFirst() {
+        for (int kept = 0; kept < 2; kept++) {
+            OwnerHeap x = ended("class Base[o] { } class R[o] { int v; } class K[o,p] is Base[o] { R[p] it; } "
+                + "class V[o] { R[this] r; Base[o] give(int kept) { K[o,this] k = new K[o,this]; k.it = new R[this]; "
+                + "if (kept) { this.r = k.it; } return k; } } class W[o] { Base[this] b; V[this] v; int go() { this.v = new V[this]; "
+                + "this.b = this.v.give(" + kept + "); } } main { W[world] w = new W[world]; w.go(); }", true);
+            // 1 the W, 2 the V, 3 the K of 1, 4 the R of 2: 1 leads to 2 and 3, 3 to 4, and 2 to 4 if it is kept there
+            CHECK.due("leaks", x.leaks(), 1);
+            CHECK.due("leak(0)", x.leak(0), 4);
+            pasts(x, 4, 1, 3, 4);
+            CHECK.due("above(4)", x.above(4), kept == 1 ? 1 : 3);
+            CHECK.due("above(3)", x.above(3), 1);
+            CHECK.due("way(2, 4)", x.way(2, 4), kept == 1 ? 1 : -1);
+        }
+    }
+
+    private static boolean holdsObject(int slot) {
+        return slot == 0 || slot == 63 || slot == 65 || slot == 128 || slot == 191 || slot == 192 || slot == 367;
+    }
+
+    /** A HOP lies in any FIELD that holds OBJECTS, the 64th and the last of all, too; in no int. */
+    private static void farFields() {
+        StringBuilder text = new StringBuilder();
+        for (int c = 0; c < 16; c++) {
+            text.append("class C").append(c).append("[o]").append(c == 0 ? "" : " is C" + (c - 1) + "[o]").append("{");
+            for (int m = 0; m < 23; m++) {
+                int slot = 23 * c + m;
+                text.append(holdsObject(slot) ? "C0[o] " : "int ").append((char) ('a' + m)).append(c == 0 ? "" : "" + (char) ('A' + c)).append(";");
+            }
+            text.append("}");
+        }
+        for (int slot : new int[] {0, 1, 62, 63, 64, 65, 66, 126, 127, 128, 129, 130, 190, 191, 192, 193, 255, 256, 319, 320, 366, 367}) {
+            boolean kind = holdsObject(slot);
+            String name = (char) ('a' + slot % 23) + (slot < 23 ? "" : "" + (char) ('A' + slot / 23));
+            String main = "main{C15[world]x=new C15[world];C0[world]y=new C0[world];x." + name + "=" + (kind ? "y" : "2") + ";}";
+            OwnerHeap x = ended(text + main, false);
+            CHECK.due("FIELD " + slot, x.field(1, slot), 2);
+            CHECK.due("way by FIELD " + slot, x.way(1, 2), kind ? 1 : -1);
+            CHECK.due("no way back by FIELD " + slot, x.way(2, 1), -1);
+        }
+    }
+
     public static void main(String[] args) {
         noSuchObject();
         deepInside();
         longPast();
         firstCome();
         throughTheOwner();
+        underTheFirst();
+        farFields();
         CHECK.end();
     }
 }
