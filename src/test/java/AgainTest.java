@@ -142,6 +142,10 @@ public final class AgainTest {
         CHECK.due("past(2, 1) first", leaking().past(2, 1), 2);
         CHECK.due("past(3, 0) first", leaking().past(3, 0), -1);
         CHECK.due("above(2) first", leaking().above(2), 0);
+        OwnerHeap held = CHECK.started("class A[o] { A[this] h; int f() { this.h = new A[this]; } } main { A[world] a = new A[world]; a.f(); }", 20, 2);
+        held.run(100);
+        CHECK.due("past of no LEAK first", held.past(2, 0), -1);
+        CHECK.due("leaks() behind it", held.leaks(), 0);
         OwnerHeap x = leaking();
         CHECK.due("past", x.past(2, 0), 3);
         CHECK.due("way behind past", x.way(1, 2), 1);

@@ -298,6 +298,22 @@ public final class FaultTest {
         judge(7, two + "class C[o,d] { int f() { T[d,o] b @= new T[o,d]; } } main { }", true);
     }
 
+    /** "its first OWNER is IN each of its others": each of four. */
+    private static void eachOther() {
+        String text = "class T[a,b,c,d,e] { } class C[o,p,q] where p in q { KIND f; } main { }";
+        fine(text.replace("KIND", "T[p,q,world,p,q]"));
+        fine(text.replace("KIND", "T[o,q,world,p,o]"));
+        fine(text.replace("KIND", "T[this,q,this,p,o]"));
+        for (String first : new String[] {"p", "q", "world", "o"}) {
+            for (int i = 1; i < 5; i++) {
+                String[] owners = {first, "world", "world", "world", "world"};
+                fine(text.replace("KIND", "T[" + String.join(",", owners) + "]"));
+                owners[i] = first.equals("o") ? "this" : "o";
+                fault(8, text.replace("KIND", "@T[" + String.join(",", owners) + "]"));
+            }
+        }
+    }
+
     /** "what its CLASS's INS tell holds of its OWNERS": each of eight, the first and the last, too. */
     private static void eachIn() {
         String[] ins = {"b in b", "c in b", "c in c", "d in c", "d in d", "e in d", "e in e", "e in b"};
@@ -368,6 +384,22 @@ public final class FaultTest {
         fault(9, from + "class B[o] is A[o] { int @g() { } } main { }");
         fault(9, from + "class B[o] is A[o] { int @g(A[o] a, A[o] b) { } } main { }");
         fault(9, "class A[o] { int f() { } } class B[o] is A[o] { int @f(int a) { } } main { }");
+    }
+
+    /** "9 OVER: a METHOD with the NAME of one from above": the nearest, wherever it is told. */
+    private static void nearestOver() {
+        String a = "class A[o] { int g() { } } ";
+        String b = "class B[o] is A[o] { int f() { } } ";
+        String c = "class C[o] is B[o] { } ";
+        for (String d : new String[] {"class D[o] is B[o] { int @f(int i) { } } ", "class D[o] is C[o] { A[o] @f() { } } "}) {
+            fault(9, a + b + c + d + "main { }");
+            fault(9, d + c + b + a + "main { }");
+            fine(d.replace("@f(int i)", "f()").replace("A[o] @f", "int f") + c + b + a + "main { }");
+        }
+        String over = "class B[o] is A[o] { int @g(int i) { } } ";
+        fault(9, "class C[o] is B[o] { int g(int i) { } } " + over + a + "main { }");
+        fault(9, a + over + "class C[o] is B[o] { int g() { } } main { }");
+        fault(9, "class C[o] is B[o] { int @g() { } } " + over.replace("@", "") + a + "main { }");
     }
 
     /** From the topmost of 16 CLASSES to the undermost. */
@@ -450,9 +482,11 @@ public final class FaultTest {
         numbersOf();
         kinds();
         owners();
+        eachOther();
         eachIn();
         fitting();
         overs();
+        nearestOver();
         farAbove();
         hidden();
         aboves();

@@ -347,6 +347,28 @@ public final class RunEdgeTest {
         }
     }
 
+    /** "VARIABLES have a place each in the order in which they are told": those of BLOCKS that have ended keep theirs. */
+    private static void placesOfVariables() {
+        String told = "int a = 1; { int b = 2; { int c = 3; say c; } int d = 4; say b; say d; } int e = 5; say e; "
+            + "if (a) { int b = 6; say b; } else { int c = 7; say c; } while (a) { int b = 8; say b; a = 0; } int b = 9; say b; say e; say a; ";
+        int[] said = {3, 2, 4, 5, 6, 8, 9, 5, 0};
+        int[] variables = {0, 2, 3, 4, 5, 6, 0, 8, 9};
+        saidBy("main { " + told + "}", said);
+        saidBy("class A[o] { int f(int p, int q) { " + told + "} } main { new A[world].f(11, 12); }", said);
+        OwnerHeap x = CHECK.started("main { " + told + "while (1) { } }", 8, 1);
+        x.run(100);
+        OwnerHeap y = CHECK.started("class A[o] { int f(int p, int q) { " + told + "while (1) { } } } main { new A[world].f(11, 12); }", 8, 2);
+        y.run(100);
+        for (int k = 0; k < variables.length; k++) {
+            CHECK.due("variable(0, " + k + ")", x.variable(0, k), variables[k]);
+            CHECK.due("variable(1, " + (k + 2) + ")", y.variable(1, k + 2), variables[k]);
+        }
+        CHECK.due("a PARAM", y.variable(1, 0), 11);
+        CHECK.due("another PARAM", y.variable(1, 1), 12);
+        CHECK.due("none behind", x.variable(0, variables.length), 0);
+        CHECK.due("none in main", y.variable(0, 0), 0);
+    }
+
     /** 40 CALLS with 16 VARIABLES each: each has its own. */
     private static void fullFrames() {
         StringBuilder text = new StringBuilder("class A[o] { int f(int n) { ");
@@ -617,6 +639,7 @@ public final class RunEdgeTest {
         fromTheLeft();
         returns();
         numbersKept();
+        placesOfVariables();
         fullFrames();
         fullOfWaiting();
         anew();

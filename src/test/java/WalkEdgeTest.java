@@ -17,7 +17,7 @@ public final class WalkEdgeTest {
 
     /** "NONE if there is none such", "False ..", "0 ..": of OBJECTS that are not there. */
     private static void noSuchObject() {
-        OwnerHeap x = ended("class A[o,p] { int v; A[o,p] n; } main { A[world,world] a = new A[world,world]; a.v = 2; a.n = a; "
+        OwnerHeap x = ended("class A[o,p] { A[o,p] f() { } int v; A[o,p] g() { } A[o,p] n; A[o,p] h() { } } main { A[world,world] a = new A[world,world]; a.v = 2; a.n = a; "
             + "A[world,world] b = new A[world,world]; b.v = 1; }", false);
         for (int o : new int[] {LEAST, -2, -1, 0, 3, 4, MOST}) {
             for (int what = 0; what < 5; what++) {
