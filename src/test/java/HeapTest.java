@@ -115,6 +115,8 @@ public final class HeapTest {
         none(x, -1);
         none(x, Integer.MAX_VALUE);
         none(x, Integer.MIN_VALUE);
+        x = CHECK.started(TEXT, 200, 10);
+        CHECK.due("run", x.run(2000), 2);
         int[] owner = {0, 0, 0, 2, 2, 0, 2, 6, 6, 0, 6, 10, 10, 0};
         for (int a = 1; a <= 13; a++) {
             for (int b = 0; b <= 13; b++) {

@@ -1,5 +1,7 @@
 import java.io.IOException;
+import java.lang.reflect.Field;
 import java.lang.reflect.Member;
+import java.lang.reflect.Method;
 import java.lang.reflect.Modifier;
 import java.nio.file.Files;
 import java.nio.file.Path;
@@ -40,6 +42,37 @@ public final class LanguageTest {
         check.due("a look for " + pattern + (found ? ": " + matcher.group() : ""), found, false);
     }
 
+    /** Rules 1, 2, 5 and 11, of one class: static ones inside, constants, few fields, few parameters. */
+    private static void shape(Check check, Class<?> of) {
+        int fields = 0;
+        for (Field field : of.getDeclaredFields()) {
+            boolean isStatic = Modifier.isStatic(field.getModifiers());
+            check.due("static " + field + " is final", !isStatic || Modifier.isFinal(field.getModifiers()), true);
+            fields += isStatic ? 0 : 1;
+        }
+        check.due("fields of " + of + ": " + fields, fields <= 20, true);
+        for (Method method : of.getDeclaredMethods()) {
+            check.due("parameters of " + method, method.getParameterCount() <= 7, true);
+        }
+        for (Class<?> inside : of.getDeclaredClasses()) {
+            check.due(inside + " is static", Modifier.isStatic(inside.getModifiers()), true);
+            check.due(inside + " is not for others", Modifier.isPublic(inside.getModifiers()) || Modifier.isProtected(inside.getModifiers()), false);
+            shape(check, inside);
+        }
+    }
+
+    /** Rule 11: a method ends where its } stands under its beginning. */
+    private static void lengths(Check check, List<String> lines) {
+        Pattern head = Pattern.compile("( +)[\\w\\[\\] ]+\\([\\w\\[\\], ]*\\) \\{");
+        for (int i = 0; i < lines.size(); i++) {
+            Matcher matcher = head.matcher(lines.get(i));
+            if (matcher.matches() && matcher.group(1).length() <= 8 && !lines.get(i).contains(" if ")) {
+                int end = lines.subList(i, lines.size()).indexOf(matcher.group(1) + "}");
+                check.due("lines of" + lines.get(i), end > 0 && end <= 60, true);
+            }
+        }
+    }
+
     public static void main(String[] args) throws IOException {
         Check check = new Check();
         String names = String.join(" ", visible());
@@ -54,6 +87,8 @@ public final class LanguageTest {
         refuse(check, source, "while \\(true\\)|for \\(;;");
         refuse(check, source, "private [\\w\\[\\] ]+ (" + FACE.replace("NONE OwnerHeap ", "").replace(' ', '|') + ")\\(");
         check.due("classes inside", OwnerHeap.class.getDeclaredClasses().length <= 12, true);
+        shape(check, OwnerHeap.class);
+        lengths(check, Files.readAllLines(root.resolve("src/main/java/OwnerHeap.java")));
         check.end();
     }
 }

@@ -66,40 +66,39 @@ public final class TapeTest {
         }
     }
 
+    /** A TEXT on an object of its own, as a full tape takes 150 calls. */
+    private static OwnerHeap full(String what, String text, int fault, int place) {
+        OwnerHeap x = new OwnerHeap();
+        CHECK.due(what + ": length", text.length(), 3000);
+        CHECK.due(what, Check.load(x, text, false), fault);
+        CHECK.due(what + ": place", x.fault(1), place);
+        CHECK.due(what + ": start", x.start(8, 1), fault == 0);
+        return x;
+    }
+
     /** "TEXTS, of at most 3,000 bytes": just so many, to the last byte. */
     private static void fullTexts() {
         String sum = "main{say 1" + "+1".repeat(1494) + ";}";
-        CHECK.due("length", sum.length(), 3000);
-        OwnerHeap x = new OwnerHeap();
-        CHECK.due("3,000 bytes", Check.load(x, sum, false), 0);
-        CHECK.due("no place", x.fault(1), -1);
-        CHECK.due("start", x.start(8, 1), true);
+        OwnerHeap x = full("a sum", sum, 0, -1);
         CHECK.due("run", x.run(1495), 2);
         CHECK.due("said", x.said(0), 1495);
         Check.feed(x, sum);
         CHECK.due("without its last byte", x.load(2999, false), 2);
         CHECK.due("at the end", x.fault(1), 2999);
-        CHECK.due("with another last byte", Check.load(x, sum.substring(0, 2999) + "$", false), 1);
-        CHECK.due("at it", x.fault(1), 2999);
-        CHECK.due("with another last byte", Check.load(x, sum.substring(0, 2999) + ";", false), 2);
-        CHECK.due("at it", x.fault(1), 2999);
-        CHECK.due("not ended", Check.load(x, " " + sum.substring(0, 2999), false), 2);
-        CHECK.due("at its length", x.fault(1), 3000);
-        CHECK.due("a note to its end", Check.load(x, "main{say 2;}#" + "$".repeat(2987), false), 0);
-        CHECK.due("blanks to its end", Check.load(x, "main{say 2;}" + "\n".repeat(2988), false), 0);
-        CHECK.due("blanks ahead", Check.load(x, " ".repeat(2988) + "main{say 3;}", false), 0);
-        x.start(8, 1);
-        x.run(1);
+        full("with another last byte", sum.substring(0, 2999) + "$", 1, 2999);
+        full("with one that can't stand there", sum.substring(0, 2999) + ";", 2, 2999);
+        full("not ended", " " + sum.substring(0, 2999), 2, 3000);
+        full("a note to its end", "main{say 2;}#" + "$".repeat(2987), 0, -1);
+        full("blanks to its end", "main{say 2;}" + "\n".repeat(2988), 0, -1);
+        x = full("blanks ahead", " ".repeat(2988) + "main{say 3;}", 0, -1);
+        CHECK.due("run", x.run(1), 2);
         CHECK.due("said", x.said(0), 3);
-        CHECK.due("its STATEMENT's place", Check.load(x, " ".repeat(2985) + "main{say null;}", false), 7);
-        CHECK.due("far behind", x.fault(1), 2990);
-        CHECK.due("nothing but signs", Check.load(x, ";".repeat(3000), false), 2);
-        CHECK.due("nothing but names", Check.load(x, "a ".repeat(1500), false), 2);
-        CHECK.due("nothing but a note", Check.load(x, "#".repeat(3000), false), 2);
-        CHECK.due("its end", x.fault(1), 3000);
-        CHECK.due("nothing but {", Check.load(x, "main" + "{".repeat(2996), false), 3);
-        CHECK.due("the 13th", x.fault(1), 16);
-        CHECK.due("the latest PROGRAM is there", x.start(8, 1), true);
+        full("a STATEMENT far behind", " ".repeat(2985) + "main{say null;}", 7, 2990);
+        full("nothing but signs", ";".repeat(3000), 2, 0);
+        full("nothing but names", "a ".repeat(1500), 2, 0);
+        full("nothing but a note", "#".repeat(3000), 2, 3000);
+        full("nothing but blanks", " ".repeat(3000), 2, 3000);
+        full("nothing but {", "main" + "{".repeat(2996), 3, 16);
     }
 
     /** "NONE for others, and ahead of any": of fault(). */
@@ -167,29 +166,23 @@ public final class TapeTest {
         cut("main { } x", 9, 0, -1);
     }
 
+    private static OwnerHeap started(String text, int calls) {
+        return CHECK.started(text, 8, calls);
+    }
+
     private static void longTexts() {
         String text = "main { say 7; }";
-        text = text + " ".repeat(3000 - text.length());
-        OwnerHeap x = new OwnerHeap();
-        CHECK.due("3,000 bytes", Check.load(x, text, false), 0);
-        String sum = "main{say 1" + "+1".repeat(1490) + ";}      ";
-        CHECK.due("many operators", Check.load(x, sum.substring(0, 2994), false), 0);
-        x.start(8, 1);
+        CHECK.fine(text + " ".repeat(3000 - text.length()));
+        OwnerHeap x = started("main{say 1" + "+1".repeat(1490) + ";}", 1);
         CHECK.due("a long sum", x.run(2000), 2);
         CHECK.due("is worked", x.said(0), 1491);
-        String calls = "class A[o]{int m(){}}main{A[world]a=new A[world];" + "a.m();".repeat(490) + "}";
-        CHECK.due("many calls", Check.load(x, calls, false), 0);
-        x.start(8, 2);
-        CHECK.due("all done", x.run(2000), 2);
+        x = started("class A[o]{int m(){}}main{A[world]a=new A[world];" + "a.m();".repeat(490) + "}", 2);
+        CHECK.due("many calls", x.run(2000), 2);
         CHECK.due("in STEPS", x.state(4), 2 + 2 * 490);
-        String sets = "main{int a=1;" + "a=1;".repeat(740) + "}";
-        CHECK.due("many that set", Check.load(x, sets, false), 0);
-        x.start(8, 1);
-        CHECK.due("all set", x.run(741), 2);
-        String minus = "main{int a=1" + "- - - - - - - - - - - -1".repeat(122) + ";return a;}";
-        CHECK.due("many -", Check.load(x, minus, false), 0);
-        x.start(8, 1);
-        CHECK.due("all taken", x.run(2000), 2);
+        x = started("main{int a=1;" + "a=1;".repeat(740) + "}", 1);
+        CHECK.due("many that set", x.run(741), 2);
+        x = started("main{int a=1" + "- - - - - - - - - - - -1".repeat(122) + ";return a;}", 1);
+        CHECK.due("many -", x.run(2000), 2);
         CHECK.due("what is left", x.state(1), 1 + 122);
     }
 

@@ -180,18 +180,34 @@ public final class WalkTest {
 
     /** What the document says, done the plain way over the answers of the other promises. */
     private static final class Plain {
-        private final OwnerHeap x;
         private final int count;
+        private final int[] owners;
+        /** The OBJECTS in the FIELDS of each, in order. */
+        private final List<List<Integer>> hops = new ArrayList<>();
 
-        Plain(OwnerHeap x) {
-            this.x = x;
-            count = x.state(6);
+        /** Each OBJECT is asked for in a RUN of its own: no object is used for more than 512 calls. */
+        Plain(String text) {
+            count = run(text, true).state(6);
+            owners = new int[count + 1];
+            hops.add(List.of());
+            for (int o = 1; o <= count; o++) {
+                OwnerHeap x = run(text, true);
+                owners[o] = x.object(o, 1);
+                List<Integer> held = new ArrayList<>();
+                for (int f = 0; f < x.object(o, 3); f++) {
+                    boolean number = x.object(o, 0) == 0 && f == 1;
+                    if (!number && x.field(o, f) != 0) {
+                        held.add(x.field(o, f));
+                    }
+                }
+                hops.add(held);
+            }
         }
 
         List<Integer> roots() {
             List<Integer> found = new ArrayList<>();
             for (int o = 1; o <= count; o++) {
-                if (x.object(o, 1) == 0) {
+                if (owners[o] == 0) {
                     found.add(o);
                 }
             }
@@ -211,10 +227,8 @@ public final class WalkTest {
             }
             for (int i = 0; i < queue.size(); i++) {
                 int o = queue.get(i);
-                for (int f = 0; f < x.object(o, 3); f++) {
-                    boolean number = x.object(o, 0) == 0 && f == 1;
-                    int to = number ? 0 : x.field(o, f);
-                    if (to != 0 && to != shut && from[to] == -1) {
+                for (int to : hops.get(o)) {
+                    if (to != shut && from[to] == -1) {
                         from[to] = o;
                         queue.add(to);
                     }
@@ -252,16 +266,17 @@ public final class WalkTest {
     }
 
     private static int randomOne(Random random) {
-        OwnerHeap x = run(randomText(random), true);
-        Plain plain = new Plain(x);
+        String text = randomText(random);
+        Plain plain = new Plain(text);
         int leaks = 0;
         for (int o = 1; o <= plain.count; o++) {
+            OwnerHeap x = run(text, true);
             CHECK.due("above(" + o + ")", x.above(o), plain.nearest(o));
             int[] from = plain.spread(List.of(o), 0);
             for (int b = 1; b <= plain.count; b++) {
                 CHECK.due("way(" + o + ", " + b + ")", x.way(o, b), from[b] == -1 ? -1 : plain.path(from, b).size() - 1);
             }
-            int owner = x.owner(o, 0);
+            int owner = plain.owners[o];
             int[] past = plain.spread(plain.roots(), owner);
             boolean leak = owner != 0 && past[o] != -1;
             List<Integer> path = leak ? plain.path(past, o) : List.of();
@@ -273,8 +288,9 @@ public final class WalkTest {
                 leaks++;
             }
         }
-        CHECK.due("leaks", x.leaks(), leaks);
-        CHECK.due("leak over the end", x.leak(leaks), -1);
+        OwnerHeap last = run(text, true);
+        CHECK.due("leaks", last.leaks(), leaks);
+        CHECK.due("leak over the end", last.leak(leaks), -1);
         return leaks;
     }
 
