@@ -104,6 +104,56 @@ public final class AgainTest {
         CHECK.due("run", x.run(1), 2);
     }
 
+    /** Signs that were open at a FAULT are not open in the next TEXT; nor are VARIABLES told there. */
+    private static void openAtAFault() {
+        String most = "main " + "{".repeat(12) + "}".repeat(12);
+        for (String bad : new String[] {"main {{{{{ $", "main {{{{{{{{{{{{{", "main { say ((((-", "class A[o] { int f(", "class A[o] {", "main { say -(-("}) {
+            OwnerHeap x = new OwnerHeap();
+            CHECK.due("load of " + bad, Check.load(x, bad, false) > 0, true);
+            judged(x, 0, most);
+            judged(x, 3, "main " + "{".repeat(12) + "@{");
+            judged(x, 0, most);
+        }
+        String variables = "";
+        for (int i = 0; i < 16; i++) {
+            variables += "int v" + i + " = 1; ";
+        }
+        OwnerHeap x = new OwnerHeap();
+        for (int k = 0; k < 3; k++) {
+            judged(x, 2, "main { " + variables + "@;");
+            judged(x, 0, "main { " + variables + "}");
+        }
+    }
+
+    /** The first MEMBER is a METHOD, then a FIELD, and the other way round, in PROGRAMS one behind the other. */
+    private static void firstMembers() {
+        String method = "class A[o] { int f(int i, A[o] j) { return i; } int v; } main { say new A[world].f(4, null); }";
+        String field = "class A[o] { int f; int v(int i) { return i + this.f; } } main { say new A[world].v(4); }";
+        for (String order : new String[] {"mf", "mff", "fmm", "mmf", "ffm", "mfmff"}) {
+            OwnerHeap x = new OwnerHeap();
+            for (char one : order.toCharArray()) {
+                judged(x, 0, one == 'm' ? method : field);
+                CHECK.due("FIELDS", x.type(0, 2), 1);
+                CHECK.due("METHODS", x.type(0, 3), 1);
+                CHECK.due("start", x.start(8, 2), true);
+                CHECK.due("run", x.run(100), 2);
+                CHECK.due("said", x.said(0), 4);
+            }
+        }
+    }
+
+    /** Long TEXTS one behind the other. */
+    private static void longOnes() {
+        OwnerHeap x = new OwnerHeap();
+        for (int k = 0; k < 3; k++) {
+            judged(x, 0, "main{say 1" + "+1".repeat(990) + ";return " + k + ";}");
+            CHECK.due("start", x.start(8, 1), true);
+            CHECK.due("run", x.run(2000), 2);
+            CHECK.due("said", x.said(0), 991);
+            CHECK.due("ended with", x.state(1), k);
+        }
+    }
+
     private static final String LEAKS = "class R[o] { int v; } class K[o,p] { R[p] it; } class W[o] { R[this] r; K[world,this] k; int go() { "
         + "this.r = new R[this]; this.k = new K[world,this]; this.k.it = this.r; } } main { W[world] w = new W[world]; w.go(); }";
 
@@ -184,6 +234,9 @@ public final class AgainTest {
         typesOfALittle();
         fieldsOfALittle();
         manyLoads();
+        openAtAFault();
+        firstMembers();
+        longOnes();
         leaksAreGone();
         anyQuestionFirst();
         troubleInTheMiddle();
