@@ -2531,7 +2531,7 @@ public final class OwnerHeap {
                     comeTo(o, 0);
                 }
             }
-            for (int i = 0; i < queued; i++) {
+            for (int i = 0; i < heap.count && i < queued; i++) {
                 spreadFrom(queue[i], shut);
             }
         }
@@ -2547,7 +2547,7 @@ public final class OwnerHeap {
         }
 
         private void comeTo(int o, int before) {
-            if (from[o] == NONE) {
+            if (from[o] == NONE && queued < queue.length) {
                 from[o] = before;
                 queue[queued] = o;
                 queued++;
